@@ -258,7 +258,8 @@ public final class AGapEveryTwenty {
         if (outside(set, ALL_PLACES + 1) || outside(way, WAYS)) {
             return NO;
         }
-        return plans.atOnce(set, way);
+        plans.from(way);
+        return plans.atOnce(set);
     }
 
     // ---- what stands
@@ -674,14 +675,14 @@ public final class AGapEveryTwenty {
 
     /** The texts, each as codes in the order in which they are reckoned: operands ahead of operators. */
     private static final class Texts {
-        /** Codes from 0 on are numbers; those from NAME down are names; the others operators. */
+        /** Codes from 0 on are numbers; the NAMES from NAME down are names; those from OR down operators. */
         static final int NAME = -1, NAMES = 6;
-        static final int OR = -11, AND = -12, LESS = -13, SAME = -14;
-        static final int PLUS = -15, MINUS = -16, TIMES = -17, NOT = -18, OPPOSITE = -19;
+        static final int OR = -7, AND = -8, LESS = -9, SAME = -10;
+        static final int PLUS = -11, MINUS = -12, TIMES = -13, NOT = -14, OPPOSITE = -15;
 
         private final int[][] codes = new int[MOST_TEXTS][TAPE_ROOM];
         private final int[][] begins = new int[MOST_TEXTS][PARTS + 1];
-        private final int[] pile = new int[TAPE_ROOM + 1];
+        private final int[] pile = new int[TAPE_ROOM];
         int many;
 
         Texts() {
@@ -706,14 +707,14 @@ public final class AGapEveryTwenty {
             int high = 0;
             for (int i = begins[t][part]; i < begins[t][part + 1]; i++) {
                 int c = code[i];
-                if (c > OR) {
+                if (c > OR && high < pile.length) {
                     pile[high] = c >= 0 ? c : names[NAME - c];
                     high++;
-                } else if (c == NOT) {
+                } else if (c == NOT && high > 0) {
                     pile[high - 1] = pile[high - 1] == 0 ? 1 : 0;
-                } else if (c == OPPOSITE) {
+                } else if (c == OPPOSITE && high > 0) {
                     pile[high - 1] = -pile[high - 1];
-                } else {
+                } else if (high > 1) {
                     high--;
                     pile[high - 1] = joined(c, pile[high - 1], pile[high]);
                 }
@@ -1088,7 +1089,9 @@ public final class AGapEveryTwenty {
         private final Row row;
         /** By first and last place the mean of a stretch from this way; -1: not reckoned yet. */
         private final long[] known = new long[PLACES * PLACES];
+        /** All places as they are put up, and how many of the stretch stand then. */
         final int[] order = new int[PLACES];
+        private final int[] besides = new int[PLACES];
         private int way;
         int longest;
         int longestAt;
@@ -1098,6 +1101,7 @@ public final class AGapEveryTwenty {
             this.row = row;
         }
 
+        /** Ahead of every plan: the row may have changed since the last one. */
         void from(int end) {
             way = end;
             Arrays.fill(known, -1L);
@@ -1108,16 +1112,19 @@ public final class AGapEveryTwenty {
             longestAt = -1;
             stretches = 0;
             for (int p = 0; p < PLACES; p++) {
-                if (!has(set, p)) {
-                    int last = lastOf(p, set);
+                if (begins(p, set)) {
+                    int size = lastOf(p, set) - p + 1;
                     stretches++;
-                    if (last - p + 1 > longest) {
-                        longest = last - p + 1;
+                    if (size > longest) {
+                        longest = size;
                         longestAt = p;
                     }
-                    p = last;
                 }
             }
+        }
+
+        private boolean begins(int p, int set) {
+            return !has(set, p) && (p == 0 || has(set, p - 1) || row.stops(p - 1) || row.stops(p));
         }
 
         /** The last place of the stretch that begins at first. */
@@ -1142,97 +1149,85 @@ public final class AGapEveryTwenty {
             }
         }
 
-        /** All places as they are put up, the gaps at last. */
         void arrange(int set) {
             int many = 0;
             for (int p = 0; p < PLACES; p++) {
-                if (!has(set, p)) {
+                if (begins(p, set)) {
                     int last = lastOf(p, set);
                     for (int i = 0; i <= last - p; i++) {
                         order[many] = upAfter(p, last, i);
+                        besides[many] = i;
                         many++;
                     }
-                    p = last;
                 }
             }
             for (int p = 0; p < PLACES; p++) {
                 if (has(set, p)) {
                     order[many] = p;
+                    besides[many] = 0;
                     many++;
                 }
             }
         }
 
-        long atOnce(int set, int end) {
-            way = end;
+        long atOnce(int set) {
+            arrange(set);
             long chance = CERTAIN;
-            for (int p = 0; p < PLACES; p++) {
-                if (!has(set, p)) {
-                    int last = lastOf(p, set);
-                    for (int i = 0; i <= last - p; i++) {
-                        chance = chance * (100 - row.falls(upAfter(p, last, i), i)) / 100;
-                    }
-                    p = last;
-                }
-            }
-            for (int p = 0; p < PLACES; p++) {
-                if (has(set, p)) {
-                    chance = chance * (100 - row.falls(p, 0)) / 100;
-                }
+            for (int i = 0; i < PLACES; i++) {
+                chance = chance * (100 - row.falls(order[i], besides[i])) / 100;
             }
             return chance;
         }
 
         /**
          * Gaps are closed from the left on, so what a gap joins to its left is all that has been joined up to it:
-         * one walk to the right, carrying that, meets stretches and gaps in the order that is needed.
+         * one walk to the right that carries its mean and size is enough.
          */
         long meanBy(int set) {
             long total = 0;
             long joined = 0;
             int size = 0;
             for (int p = 0; p < PLACES; p++) {
-                boolean gap = has(set, p);
-                boolean stops = row.stops(p);
-                if (gap || stops) {
-                    joined = stops ? 0 : joined;
-                    size = stops ? 0 : size;
-                }
-                int first = gap ? p + 1 : p;
-                int last = gap ? p : p - 1;
-                if (first < PLACES && !has(set, first) && !(gap && (stops || row.stops(first)))) {
-                    last = lastOf(first, set);
-                    long mean = stretchMean(first, last);
-                    total = capped(total + mean);
-                    joined = capped(joined + mean);
-                    size += last - first + 1;
-                }
-                if (gap) {
-                    long all = closing(p, joined, size);
-                    total = capped(total + all);
-                    joined = capped(joined + all);
-                    size++;
-                }
-                if (stops) {
+                if (row.stops(p)) {
+                    total = capped(total + (has(set, p) ? closing(p, 0, 0) : stretchMean(p, p)));
                     joined = 0;
                     size = 0;
+                } else if (has(set, p)) {
+                    int last = p + 1 < PLACES && !has(set, p + 1) && !row.stops(p + 1) ? lastOf(p + 1, set) : p;
+                    long again = capped(joined + stretchMean(p + 1, last));
+                    long all = closing(p, again, size + last - p);
+                    total = capped(total + all);
+                    joined = capped(again + all);
+                    size += last - p + 1;
+                } else if (begins(p, set)) {
+                    int last = lastOf(p, set);
+                    long mean = stretchMean(p, last);
+                    total = capped(total + mean);
+                    // behind a gap that doesn't stop it has been joined already
+                    if (p == 0 || row.stops(p - 1)) {
+                        joined = mean;
+                        size = last - p + 1;
+                    }
                 }
-                p = last;
             }
             return total;
         }
 
+        /** 0, if last lies ahead of first: there is no stretch. */
         private long stretchMean(int first, int last) {
-            int known1 = first * PLACES + last;
-            if (known[known1] < 0) {
+            if (last < first) {
+                return 0;
+            }
+            int at = first * PLACES + last;
+            if (known[at] < 0) {
                 long mean = 0;
                 for (int i = 0; i <= last - first; i++) {
                     int p = upAfter(first, last, i);
                     mean = capped((mean + 1000L * row.takes(p)) * 100 / (100 - row.falls(p, i)));
                 }
-                known[known1] = mean;
+                known[at] = mean;
             }
-            return known[known1];
+            return known[at];
         }
 
         private long closing(int p, long again, int beside) {
