@@ -90,14 +90,18 @@ public final class AGapEveryTwenty {
         if (reader.size + n > TAPE_ROOM) {
             return FULL;
         }
-        for (int i = 0; i < n; i++) {
-            switch (i) {
-                case 0: reader.append(a); break;
-                case 1: reader.append(b); break;
-                case 2: reader.append(c); break;
-                case 3: reader.append(d); break;
-                default: reader.append(e); break;
-            }
+        reader.append(a);
+        if (n > 1) {
+            reader.append(b);
+        }
+        if (n > 2) {
+            reader.append(c);
+        }
+        if (n > 3) {
+            reader.append(d);
+        }
+        if (n > 4) {
+            reader.append(e);
         }
         return reader.size;
     }

@@ -1,0 +1,140 @@
+/** Promise 5: what can be read, where it can't, and what it says. */
+public final class FaultTest {
+    private static final Due due = new Due("FaultTest");
+
+    public static void main(String[] args) {
+        faults();
+        opens();
+        sayings();
+        due.end();
+    }
+
+    private static void fault(String text, int place) {
+        due.is("text() of " + text, Tape.read(new AGapEveryTwenty(), text), -100 - place);
+    }
+
+    private static void good(String text) {
+        due.is("text() of " + text, Tape.read(new AGapEveryTwenty(), text), 1);
+    }
+
+    private static void faults() {
+        good("falls2;takes3;closes4;");
+        good("\n falls 2 ;\ntakes 3 ; closes 4 ; \n");
+        good("falls 1or 2and 3;takes 0009;closes place;");
+        fault("", 0);
+        fault("   ", 3);
+        fault("falls 2;takes 3;closes 4", 24);
+        fault("falls 2;takes 3;closes 4  ", 26);
+        fault("falls 2;takes 3;closes 4; ;", 26);
+        fault("falls 2;takes 3;closes 4;falls", 25);
+        fault("takes 2;", 0);
+        fault("falls 2;closes 3;", 8);
+        fault("falls falls;", 6);
+        fault("falls ;", 6);
+        fault("falls 2 3;", 8);
+        fault("falls 12345;", 6);
+        fault("falls 00001;", 6);
+        fault("falls 1+place 12345", 14);
+        fault("falls plac;", 6);
+        fault("falls places;", 6);
+        fault("falls2place;", 6);
+        fault("falls 2 x", 8);
+        fault("falls 2 @", 8);
+        fault("Falls 2;", 0);
+        fault("falls 2\t;", 7);
+        fault("falls 2\r;", 7);
+        fault("falls 2;takes 3;closes 4;\u0000", 25);
+        fault("falls 2;takes 3;closes 4;\u00ff", 25);
+        fault("falls 1 + ;", 10);
+        fault("falls 1 * * 2;", 10);
+        fault("falls 1 < 2 < 3;", 12);
+        fault("falls 1 = 2 = 3;", 12);
+        fault("falls 1 < not 2;", 10);
+        fault("falls 1 + not 2;", 10);
+        fault("falls - not 2;", 8);
+        fault("falls not;", 9);
+        fault("falls 1 or;", 10);
+        fault("falls or 1;", 6);
+        fault("falls +1;", 6);
+        fault("falls (1;", 8);
+        fault("falls 1);", 7);
+        fault("falls ();", 7);
+        fault("falls (1", 8);
+        fault("falls 1;takes", 13);
+        fault("falls 1;takes 1;closes >", 23);
+        good("falls 1 - -1;takes not not 1;closes (not 1 < 2) + 1;");
+        good("falls 1 < 2 and 2 < 3 or not 1 = 2;takes 1;closes 1;");
+    }
+
+    private static void opens() {
+        String rest = ";takes 1;closes 1;";
+        good("falls (((((1)))))" + rest);
+        fault("falls ((((((1))))))" + rest, 11);
+        good("falls -----1" + rest);
+        fault("falls ------1" + rest, 11);
+        good("falls not not not not not 1" + rest);
+        fault("falls not not not not not not 1" + rest, 26);
+        fault("falls not not not not not -1" + rest, 26);
+        fault("falls not not not not not (1)" + rest, 26);
+        fault("falls not not not not not 1 < (1)" + rest, 30);
+        fault("falls not(-(not(1)))" + rest, 15);
+        good("falls not(-(not 1))" + rest);
+        good("falls (not -(-1)) - (not -(-1))" + rest);
+        // each is open just till what it belongs to ends
+        good("falls -----1 - -----1 - (((((1)))))" + rest);
+        good("falls not not not not not 1 and (((((1)))))" + rest);
+        good("falls ((((1 - 1 - (1)))))" + rest);
+        fault("falls (((((1 - -1)))))" + rest, 15);
+        good("falls ((((-1 + -1 * -1))))" + rest);
+        fault("falls ((((-1 + -(1)))))" + rest, 16);
+    }
+
+    private static void says(String e, int want) {
+        AGapEveryTwenty x = new AGapEveryTwenty();
+        x.set(0, 7);
+        x.set(2, 1);
+        x.set(3, 2);
+        x.lay(5, 0, 8);
+        due.is("reads " + e, Tape.obey(x, "falls 50+(" + e + ");takes 1;closes 1;"), 1);
+        due.is("says " + e, x.asks(0, 5, 4), 50 + want);
+    }
+
+    private static void sayings() {
+        says("place", 5);
+        says("more", 8);
+        says("beside", 4);
+        says("gaps", 3);
+        says("end", 1);
+        says("reach", 2);
+        says("1 + 2 * 3", 7);
+        says("(1 + 2) * 3", 9);
+        says("9 - 3 - 2", 4);
+        says("9 - (3 - 2)", 8);
+        says("- 3 + 2", -1);
+        says("-3 * -2", 6);
+        says("- - 4", 4);
+        says("1 < 2", 1);
+        says("2 < 2", 0);
+        says("2 = 2", 1);
+        says("2 = 3", 0);
+        says("1 + 1 < 1 + 2", 1);
+        says("-1 < 0", 1);
+        says("3 or 0", 1);
+        says("0 or 0", 0);
+        says("0 or 0 or 7", 1);
+        says("3 and 4", 1);
+        says("3 and 0", 0);
+        says("0 and 1 or 1", 1);
+        says("1 or 1 and 0", 1);
+        says("not 3", 0);
+        says("not 0", 1);
+        says("not 1 < 0", 1);
+        says("not 0 and 0", 0);
+        says("not not 6", 1);
+        says("(3)", 3);
+        says("0007", 7);
+        says("9999 * 9999 * 9999 * 9999 < 0", (9999 * 9999 * 9999 * 9999) < 0 ? 1 : 0);
+        says("9999 * 9999 * 9999 = " + "(0 - 9999) * (0 - 9999) * 9999", 1);
+        says("9000 * 9000 * 53 < 0", 9000 * 9000 * 53 < 0 ? 1 : 0);
+    }
+}
