@@ -1,0 +1,367 @@
+/** Promises 10 to 18: plans. */
+public final class PlansTest {
+    private static final int BAD = AGapEveryTwenty.BAD;
+    private static final long NO = AGapEveryTwenty.NO;
+    private static final Due due = new Due("PlansTest");
+
+    public static void main(String[] args) {
+        stretches();
+        ends();
+        closings();
+        bounds();
+        plans();
+        bests();
+        everies();
+        whiches();
+        stops();
+        dears();
+        atOnce();
+        due.end();
+    }
+
+    private static AGapEveryTwenty by(String law) {
+        AGapEveryTwenty x = new AGapEveryTwenty();
+        due.is("reads " + law, Tape.obey(x, law), 1);
+        return x;
+    }
+
+    private static void stretches() {
+        AGapEveryTwenty x = new AGapEveryTwenty();
+        due.is("of like ones the first: how long", x.stretch(0b0000_1000_0100_0000, 0), 6);
+        due.is("of like ones the first: where", x.stretch(0b0010_0000_0100_0000, 1), 0);
+        due.is("a later, longer one", x.stretch(0b0000_0000_0010_0000, 1), 6);
+        due.is("how many", x.stretch(0b1010_0000_0100_0001, 2), 3);
+        x.lay(3, 4, 0);
+        x.lay(4, 4, 0);
+        due.is("two that stop", x.stretch(0, 2), 4);
+        due.is("behind those that stop", x.stretch(0, 1), 5);
+        due.is("how long behind them", x.stretch(0, 0), 11);
+        due.is("one that stops is a gap", x.stretch(0b1000, 2), 3);
+        due.is("those that stop alone", x.stretch(65535 - 0b11000, 2), 2);
+        due.is("the first of those alone", x.stretch(65535 - 0b11000, 1), 3);
+        due.is("its own", x.stretch(65535 - 0b11000, 0), 1);
+        due.is("all gaps: how long", x.stretch(65535, 0), 0);
+        due.is("all gaps: where", x.stretch(65535, 1), -1);
+        due.is("all gaps: how many", x.stretch(65535, 2), 0);
+        x.set(0, 65535);
+        due.is("not by the gaps that are told", x.stretch(0, 2), 4);
+        due.is("set -1", x.stretch(-1, 0), BAD);
+        due.is("set 65536", x.stretch(65536, 0), BAD);
+        due.is("what -1", x.stretch(0, -1), BAD);
+        due.is("what 3", x.stretch(0, 3), BAD);
+    }
+
+    private static long up(long t, int takes, int falls) {
+        return (t + 1000L * takes) * 100 / (100 - falls);
+    }
+
+    private static long upAll(int[] order, int[] falls, int[] takes) {
+        long t = 0;
+        for (int p : order) {
+            t = up(t, takes[p], falls[p]);
+        }
+        return t;
+    }
+
+    /** Falls and takes tell of each place its number, so that the order is seen. */
+    private static void ends() {
+        AGapEveryTwenty x = by("falls place * 3;takes place + 1;closes 1;");
+        int[] falls = new int[16];
+        int[] takes = new int[16];
+        for (int p = 0; p < 16; p++) {
+            falls[p] = 3 * p;
+            takes[p] = p + 1;
+        }
+        int[][] whole = {
+            {0, 1, 2, 3, 4, 5, 6, 7, 8, 9, 10, 11, 12, 13, 14, 15},
+            {15, 14, 13, 12, 11, 10, 9, 8, 7, 6, 5, 4, 3, 2, 1, 0},
+            {7, 8, 6, 9, 5, 10, 4, 11, 3, 12, 2, 13, 1, 14, 0, 15}};
+        for (int way = 0; way < 3; way++) {
+            due.is("mean(0, " + way + ")", x.mean(0, way), upAll(whole[way], falls, takes));
+        }
+        x.lay(5, 4, 2);
+        falls[5] = 30;
+        takes[5] = 11;
+        int[][] odd = {{0, 1, 2, 3, 4}, {4, 3, 2, 1, 0}, {2, 3, 1, 4, 0}};
+        int[][] even = {{6, 7, 8, 9, 10, 11, 12, 13, 14, 15}, {15, 14, 13, 12, 11, 10, 9, 8, 7, 6},
+            {10, 11, 9, 12, 8, 13, 7, 14, 6, 15}};
+        for (int way = 0; way < 3; way++) {
+            due.is("mean(0, " + way + ") by a stop", x.mean(0, way), upAll(odd[way], falls, takes)
+                    + upAll(new int[] {5}, falls, takes) + upAll(even[way], falls, takes));
+        }
+        // beside are those of the stretch that stand
+        AGapEveryTwenty y = by("falls beside * 2;takes 1;closes 1;");
+        y.lay(8, 4, 0);
+        long eight = 0;
+        long seven = 0;
+        for (int i = 0; i < 8; i++) {
+            eight = up(eight, 1, 2 * i);
+            seven = i < 7 ? up(seven, 1, 2 * i) : seven;
+        }
+        due.is("beside in a stretch", y.mean(0, 1), eight + 4000 + seven);
+        due.is("set -1", x.mean(-1, 0), NO);
+        due.is("set 65536", x.mean(65536, 0), NO);
+        due.is("way -1", x.mean(0, -1), NO);
+        due.is("way 3", x.mean(0, 3), NO);
+    }
+
+    private static long closed(int takes, int closes, int falls, long again) {
+        return (1000L * (takes + closes) * 100 + again * falls) / (100 - falls);
+    }
+
+    private static long same(int many) {
+        long t = 0;
+        for (int i = 0; i < many; i++) {
+            t = up(t, 3, 2);
+        }
+        return t;
+    }
+
+    private static void closings() {
+        AGapEveryTwenty x = new AGapEveryTwenty();
+        due.is("a gap at the left", x.mean(1, 0), same(15) + closed(3, 10, 2, same(15)));
+        due.is("a gap at the right", x.mean(32768, 0), same(15) + closed(3, 10, 2, same(15)));
+        long both = same(5) + same(10);
+        due.is("a gap within", x.mean(1 << 5, 0), both + closed(3, 10, 2, both));
+        // two gaps: the second joins what the first has joined
+        long left = same(3) + same(4);
+        long first = closed(3, 10, 2, left);
+        long again = left + first + same(7);
+        due.is("two gaps", x.mean(1 << 3 | 1 << 8, 0), left + same(7) + first + closed(3, 10, 2, again));
+        // side by side: the first joins nothing to its right
+        first = closed(3, 10, 2, same(3));
+        again = same(3) + first + same(11);
+        due.is("two gaps side by side", x.mean(3 << 3, 0), same(3) + same(11) + first + closed(3, 10, 2, again));
+        // beside is how many places it joins, the closed ones, too
+        AGapEveryTwenty y = by("falls 0;takes 1;closes beside+1;");
+        due.is("beside of gaps", y.mean(1 << 3 | 1 << 8, 0), 14000 + (1 + 8) * 1000 + (1 + 16) * 1000);
+        due.is("beside of all gaps", y.mean(65535, 0), 16000 + 1000 * 136);
+        // what stops is never joined, and a gap that stops joins nothing
+        y.lay(4, 4, 0);
+        due.is("a stop at its right", y.mean(1 << 3, 0), 14000 + 4000 + 1000 + 4000);
+        due.is("a stop at its left", y.mean(1 << 5, 0), 14000 + 4000 + 1000 + 11000);
+        due.is("a gap that stops", y.mean(1 << 4, 0), 15000 + 4000 + 1000);
+        due.is("gaps beside one that stops", y.mean(7 << 3, 0),
+                13000 + (1000 + 4000) + (4000 + 1000) + (1000 + 11000));
+        AGapEveryTwenty z = by("falls beside;takes 1;closes 1;");
+        long twice = 0;
+        for (int i = 0; i < 4; i++) {
+            twice = up(twice, 1, i);
+        }
+        long many = 0;
+        for (int i = 0; i < 11; i++) {
+            many = up(many, 1, i);
+        }
+        due.is("falls by beside of a gap", z.mean(1 << 4, 0), twice + many + closed(1, 1, 15, twice + many));
+    }
+
+    private static void bounds() {
+        AGapEveryTwenty x = by("falls 99;takes 99;closes 99;");
+        for (int way = 0; way < 3; way++) {
+            due.is("the most, no gap", x.mean(0, way), 1000000000000L);
+            due.is("the most, with gaps", x.mean(544, way), 1000000000000L);
+        }
+        due.is("all gaps", x.mean(65535, 0), 1000000000000L);
+        due.is("stop() by plans at the most", x.stop(1) >= 0 ? 1 : 0, 1);
+        due.is("at once", x.likely(0, 0), 0);
+        AGapEveryTwenty y = by("falls 99*(place<3);takes 99;closes 1;");
+        long t = 0;
+        for (int p = 0; p < 16; p++) {
+            t = up(t, 99, p < 3 ? 99 : 0);
+        }
+        due.is("below the most", y.mean(0, 0), t);
+    }
+
+    private static void plans() {
+        AGapEveryTwenty x = new AGapEveryTwenty();
+        for (int p = 0; p < 16; p++) {
+            x.lay(p, p % 6, p % 10);
+        }
+        for (int way = 0; way < 3; way++) {
+            for (int set = 0; set < 65536; set += 4681) {
+                x.set(0, set);
+                x.set(2, way);
+                due.is("plan() by " + set + " from " + way, x.plan(), x.mean(set, way));
+            }
+        }
+        // names tell what is told, whatever is tried
+        AGapEveryTwenty y = by("falls gaps;takes end+1;closes 1;");
+        y.set(2, 1);
+        due.is("end as told", y.mean(0, 0), 32000);
+        y.set(0, 15);
+        long t = 0;
+        for (int i = 0; i < 16; i++) {
+            t = up(t, 2, 4);
+        }
+        due.is("gaps as told", y.mean(0, 2), t);
+    }
+
+    private static void bests() {
+        AGapEveryTwenty x = by("falls 30;takes 1;closes 1;");
+        for (int many = 0; many <= 4; many++) {
+            long least = Long.MAX_VALUE;
+            for (int set = 0; set < 65536; set++) {
+                if (Integer.bitCount(set) <= many) {
+                    least = Math.min(least, x.mean(set, 0));
+                }
+            }
+            due.is("best(" + many + ", 1)", x.best(many, 1), least);
+            due.is("best(" + many + ", 0) has that", x.mean((int) x.best(many, 0), 0), least);
+        }
+        // of like ones that of fewest
+        AGapEveryTwenty y = by("falls 0;takes 1;closes 1;");
+        due.is("none is best", y.best(4, 0), 0);
+        due.is("none is best: mean", y.best(4, 1), 16000);
+        // from END
+        AGapEveryTwenty z = by("falls place*4;takes 1;closes 1;");
+        for (int way = 0; way < 3; way++) {
+            z.set(2, way);
+            due.is("best from " + way, z.best(2, 1), z.mean((int) z.best(2, 0), way));
+            due.is("none is better than that", z.best(2, 1) <= z.mean(1 << 8, way) ? 1 : 0, 1);
+        }
+        bestOfLikeOnes();
+        due.is("many -1", x.best(-1, 0), NO);
+        due.is("many 5", x.best(5, 0), NO);
+        due.is("what -1", x.best(0, -1), NO);
+        due.is("what 2", x.best(0, 2), NO);
+    }
+
+    /** No gap and single ones are dear by this law; {1, 15} and {2, 4} are alike, and no other two as good. */
+    private static void bestOfLikeOnes() {
+        AGapEveryTwenty x = by("falls 90*(beside=15and not(place=4or place=15)or beside=place and(place=3or place=14));"
+                + "takes 1;closes 9-8*(place=2and beside=3or place=1and beside=14);");
+        due.is("the one", x.mean(1 << 1 | 1 << 15, 0), 26000);
+        due.is("the other", x.mean(1 << 2 | 1 << 4, 0), 26000);
+        due.is("the one whose lowest place is least", x.best(2, 0), 1 << 1 | 1 << 15);
+        due.is("their mean", x.best(2, 1), 26000);
+        due.is("with more", x.best(3, 0), 1 << 1 | 1 << 15);
+    }
+
+    private static void everies() {
+        AGapEveryTwenty x = new AGapEveryTwenty();
+        due.is("every(0)", x.every(0), 9);
+        due.is("every(1)", x.every(1), x.mean(1 << 8, 0));
+        AGapEveryTwenty y = by("falls 30;takes 1;closes 1;");
+        long least = Long.MAX_VALUE;
+        int chosen = 0;
+        for (int k = 2; k <= 16; k++) {
+            int set = 0;
+            for (int p = k - 1; p < 16; p += k) {
+                set |= 1 << p;
+            }
+            if (y.mean(set, 0) < least) {
+                least = y.mean(set, 0);
+                chosen = k;
+            }
+        }
+        due.is("every(0) of another law", y.every(0), chosen);
+        due.is("every(1) of another law", y.every(1), least);
+        // of like ones the least: from 9 on there is one gap alone, and here it costs the same anywhere
+        AGapEveryTwenty z = by("falls 0;takes 1;closes 5;");
+        due.is("of like ones the least", z.every(0), 9);
+        due.is("of like ones: mean", z.every(1), 16000 + 5000);
+        // 16: a gap at place 15
+        AGapEveryTwenty v = by("falls 0;takes 1;closes 99*(not place=15)+1;");
+        due.is("16 at last", v.every(0), 16);
+        due.is("what -1", x.every(-1), NO);
+        due.is("what 2", x.every(2), NO);
+    }
+
+    private static void whiches() {
+        AGapEveryTwenty x = by("falls place;takes 1;closes 1;");
+        x.set(2, 1);
+        due.is("from the right", x.which(0), 1);
+        due.is("from the right: mean", x.which(1), x.mean(0, 1));
+        AGapEveryTwenty y = by("falls 20-place;takes 1;closes 1;");
+        y.set(2, 1);
+        due.is("from the left", y.which(0), 0);
+        AGapEveryTwenty z = by("falls (place-7)*(place-7);takes 1;closes 1;");
+        long middle = z.mean(0, 2);
+        due.is("one of three", z.which(1), Math.min(middle, Math.min(z.mean(0, 0), z.mean(0, 1))));
+        AGapEveryTwenty v = new AGapEveryTwenty();
+        v.set(0, 544);
+        v.set(2, 2);
+        due.is("of like ones the least", v.which(0), 0);
+        due.is("by GAPS", v.which(1), v.plan());
+        due.is("what -1", x.which(-1), NO);
+        due.is("what 2", x.which(2), NO);
+    }
+
+    private static void stops() {
+        AGapEveryTwenty x = new AGapEveryTwenty();
+        due.is("stop(0)", x.stop(0), 7);
+        due.is("stop(1)", x.stop(1), 1890);
+        x.lay(7, 0, 9);
+        long[] less = new long[16];
+        int first = -1;
+        for (int p = 0; p < 16; p++) {
+            AGapEveryTwenty y = new AGapEveryTwenty();
+            y.lay(7, 0, 9);
+            long before = y.plan();
+            y.lay(p, 4, p == 7 ? 9 : 0);
+            less[p] = before - y.plan();
+            if (less[p] > 0 && (first < 0 || less[p] > less[first])) {
+                first = p;
+            }
+        }
+        due.is("with its MORE", x.stop(0), first);
+        due.is("by how much", x.stop(1), less[first]);
+        due.is("nothing is ruled by it", x.told(first, 0), 0);
+        AGapEveryTwenty z = by("falls 0;takes 1;closes 1;");
+        due.is("nowhere less", z.stop(0), -1);
+        due.is("by nothing", z.stop(1), 0);
+        due.is("what -1", x.stop(-1), NO);
+        due.is("what 2", x.stop(2), NO);
+    }
+
+    private static void dears() {
+        AGapEveryTwenty x = new AGapEveryTwenty();
+        due.is("no gaps", x.dear(0), -1);
+        due.is("no gaps: mean", x.dear(1), -1);
+        due.is("what -1 without gaps", x.dear(-1), NO);
+        due.is("what 2 without gaps", x.dear(2), NO);
+        AGapEveryTwenty y = by("falls 0;takes 1;closes place;");
+        y.set(0, 1 << 2 | 1 << 9 | 1 << 12);
+        due.is("the dear one", y.dear(0), 12);
+        due.is("the plan without it", y.dear(1), 16000 + 2000 + 9000);
+        AGapEveryTwenty z = by("falls 0;takes 1;closes 5;");
+        z.set(0, 1 << 2 | 1 << 9 | 1 << 12);
+        due.is("of like ones the first", z.dear(0), 2);
+        due.is("its gap is one yet", z.count(0), 1 << 2 | 1 << 9 | 1 << 12);
+        AGapEveryTwenty v = by("falls place+beside;takes 1;closes 5;");
+        v.set(0, 1 << 5);
+        v.set(2, 1);
+        due.is("one gap, from END", v.dear(1), v.mean(0, 1));
+    }
+
+    private static void atOnce() {
+        AGapEveryTwenty x = new AGapEveryTwenty();
+        due.is("all spots", x.likely(0, 0), 723797716L);
+        AGapEveryTwenty y = by("falls beside;takes 1;closes 1;");
+        y.lay(3, 2, 0);
+        // gaps at 0 and 4; stretches 1 .. 3 and 5 .. 15; place 3 falls twice as much
+        int[] besideOfThree = {2, 0, 1}; // how many stand as place 3 is put up, by the way
+        for (int way = 0; way < 3; way++) {
+            long c = 1000000000L;
+            for (int beside = 0; beside < 3; beside++) {
+                c = c * (100 - (beside == besideOfThree[way] ? 2 * beside : beside)) / 100;
+            }
+            for (int beside = 0; beside < 11; beside++) {
+                c = c * (100 - beside) / 100;
+            }
+            due.is("likely by gaps from " + way, y.likely(1 | 1 << 4, way), c);
+        }
+        // gaps at last, beside 0
+        AGapEveryTwenty z = by("falls place*6+beside;takes 1;closes 1;");
+        long c = 1000000000L;
+        for (int p : new int[] {1, 2, 3, 4, 5, 6, 7, 8, 9, 10, 11, 12, 13, 14, 15, 0}) {
+            int falls = Math.min(99, p == 0 ? 0 : 6 * p + p - 1);
+            c = c * (100 - falls) / 100;
+        }
+        due.is("a gap at last", z.likely(1, 0), c);
+        due.is("set -1", x.likely(-1, 0), NO);
+        due.is("set 65536", x.likely(65536, 0), NO);
+        due.is("way -1", x.likely(0, -1), NO);
+        due.is("way 3", x.likely(0, 3), NO);
+    }
+}

@@ -1,0 +1,244 @@
+/** Promises 19 to 24: what stands, and rows by lots. */
+public final class StandsTest {
+    private static final int BAD = AGapEveryTwenty.BAD, STATE = AGapEveryTwenty.STATE;
+    private static final long NO = AGapEveryTwenty.NO;
+    private static final Due due = new Due("StandsTest");
+
+    public static void main(String[] args) {
+        pushes();
+        reaches();
+        stopped();
+        fars();
+        tips();
+        puts();
+        draws();
+        odds();
+        due.end();
+    }
+
+    private static AGapEveryTwenty standing(int stands) {
+        AGapEveryTwenty x = new AGapEveryTwenty();
+        x.set(1, stands);
+        return x;
+    }
+
+    private static void pushes() {
+        AGapEveryTwenty x = standing(0b0001_1110_0111_0010);
+        due.is("to both sides", x.push(5, 0), 0b0111_0000);
+        due.is("to the right", x.push(5, 1), 0b0110_0000);
+        due.is("to the left", x.push(5, 2), 0b0011_0000);
+        due.is("one alone", x.push(1, 0), 0b0010);
+        due.is("none stands there", x.push(0, 0), 0);
+        due.is("nothing has changed", x.count(1), 0b0001_1110_0111_0010);
+        due.is("all, from an end", standing(65535).push(15, 2), 65535);
+        due.is("all, to the other side", standing(65535).push(15, 1), 32768);
+        due.is("place -1", x.push(-1, 0), -5);
+        due.is("place 16 ahead of the side", x.push(16, 3), -5);
+        due.is("side -1", x.push(0, -1), -7);
+        due.is("side 3", x.push(0, 3), -7);
+    }
+
+    private static void reaches() {
+        AGapEveryTwenty x = standing(0b1000_1001_0110_1011);
+        int[] right = {0b0011, 0b0001_0110_1011, 0b1001_0110_1011};
+        x.set(3, 0);
+        due.is("reach 0 to the right", x.push(0, 1), right[0]);
+        x.set(3, 1);
+        due.is("reach 1 to the right", x.push(0, 1), right[1]);
+        due.is("reach 1 to the left", x.push(8, 2), 1 << 8 | right[1]);
+        x.set(3, 2);
+        due.is("reach 2 to the right", x.push(0, 1), right[2]);
+        due.is("not over 3", x.push(15, 2), 1 << 15);
+        due.is("reach 2 to both sides", x.push(8, 0), right[2]);
+        x.set(0, 65535);
+        due.is("gaps do not matter", x.push(8, 0), right[2]);
+    }
+
+    private static void stopped() {
+        AGapEveryTwenty x = standing(0b0111_1111);
+        x.lay(3, 4, 0);
+        due.is("as far as a stop, to the right", x.push(0, 1), 0b0111);
+        due.is("as far as a stop, to the left", x.push(6, 2), 0b0111_0000);
+        due.is("from a stop nowhere", x.push(3, 0), 0b1000);
+        x.set(1, 0b0111_0111);
+        x.set(3, 0);
+        due.is("reach 0 not over an empty one", x.push(0, 1), 0b0111);
+        x.set(3, 1);
+        due.is("over an empty stop", x.push(0, 1), 0b0111_0111);
+    }
+
+    private static void fars() {
+        AGapEveryTwenty x = standing(0);
+        due.is("nothing stands", x.far(0), -1);
+        due.is("nothing stands: how many", x.far(1), -1);
+        due.is("BAD though nothing stands", x.far(2), BAD);
+        due.is("what -1", x.far(-1), BAD);
+        x.set(1, 0b0111_0110_0111_0000);
+        due.is("of like ones the first", x.far(0), 4);
+        due.is("how many", x.far(1), 3);
+        x.set(3, 1);
+        due.is("by the reach", x.far(1), 5);
+        due.is("by the reach: where", x.far(0), 9);
+        x.lay(10, 4, 0);
+        due.is("by a stop", x.far(0), 4);
+        x.set(1, 1 << 15);
+        due.is("one alone", x.far(0), 15);
+        due.is("one alone: how many", x.far(1), 1);
+    }
+
+    private static void tips() {
+        AGapEveryTwenty x = standing(0b0001_1110_0111_0010);
+        due.is("how many fall", x.tip(5, 1), 2);
+        due.is("they are down", x.count(1), 0b0001_1110_0001_0010);
+        due.is("none there", x.tip(5, 1), 0);
+        due.is("both sides", x.tip(10, 0), 4);
+        due.is("what stands", x.count(1), 0b0001_0010);
+        due.is("place -1", x.tip(-1, 0), -5);
+        due.is("place 16 ahead of the side", x.tip(16, 5), -5);
+        due.is("side -1", x.tip(1, -1), -7);
+        due.is("side 3", x.tip(1, 3), -7);
+        due.is("nothing has changed", x.count(1), 0b0001_0010);
+    }
+
+    private static int lot(int seed) {
+        return (int) ((seed + 1L) * 48271 % 2147483647 % 100);
+    }
+
+    /** A seed by which the first lot, modulo 100, is so. */
+    private static int seedOf(int hundredth) {
+        int seed = 0;
+        while (lot(seed) != hundredth) {
+            seed++;
+        }
+        return seed;
+    }
+
+    private static void puts() {
+        AGapEveryTwenty x = standing(0b0011_0110);
+        Tape.obey(x, "falls 40+beside;takes 1;closes 1;");
+        due.is("just stands: beside 4", x.put(3, seedOf(44)), -1);
+        due.is("it stands", x.count(1), 0b0011_1110);
+        due.is("one stands there", x.put(3, 0), STATE);
+        x.set(1, 0b0011_0110);
+        due.is("just falls: with 4", x.put(3, seedOf(43)), 4);
+        due.is("all are down", x.count(1), 0);
+        due.is("falls alone", x.put(0, seedOf(39)), 0);
+        due.is("none stands", x.count(1), 0);
+        x.set(1, 0b0110_0110);
+        x.lay(3, 4, 0);
+        due.is("at a stop none falls with it", x.put(3, seedOf(79)), 0);
+        due.is("they stand", x.count(1), 0b0110_0110);
+        due.is("above twice as much", x.put(3, seedOf(80)), -1);
+        x.lay(3, 0, 0);
+        x.set(1, 0b0110_0110);
+        x.set(3, 1);
+        due.is("over an empty place", x.put(3, seedOf(43)), 4);
+        due.is("seed 99999", x.put(9, 99999), lot(99999) < 40 ? 0 : -1);
+        due.is("place -1", x.put(-1, 0), -5);
+        due.is("place 16 ahead of the seed", x.put(16, -1), -5);
+        due.is("seed -1", x.put(0, -1), -7);
+        due.is("seed 100000", x.put(0, 100000), -7);
+        x.set(1, 1);
+        due.is("the seed ahead of STATE", x.put(0, 100000), -7);
+        due.is("STATE", x.put(0, 0), STATE);
+    }
+
+    private static void draws() {
+        AGapEveryTwenty x = new AGapEveryTwenty();
+        due.is("how many lots", x.drawn(7, 60, 0), 23);
+        due.is("what stands then", x.drawn(7, 60, 1), 65535);
+        due.is("how often it fell", x.drawn(7, 60, 2), 2);
+        due.is("nothing stands, truly", x.count(1), 0);
+        due.is("no lots", x.drawn(7, 0, 1), 0);
+        due.is("no lots: how many", x.drawn(7, 0, 0), 0);
+        Tape.obey(x, "falls 0;takes 1;closes 1;");
+        int[][] orders = {{0, 1, 2, 4, 5, 6, 7}, {2, 1, 0, 15, 14, 13, 12}, {1, 2, 0, 9, 10, 8, 11}};
+        x.set(0, 8);
+        for (int way = 0; way < 3; way++) {
+            x.set(2, way);
+            int stands = 0;
+            for (int n = 1; n <= 7; n++) {
+                stands |= 1 << orders[way][n - 1];
+                due.is("drawn by " + n + " from " + way, x.drawn(5, n, 1), stands);
+            }
+            due.is("gaps at last", x.drawn(5, 15, 1), 65535 - 8);
+            due.is("all", x.drawn(5, 400, 0), 16);
+        }
+        x.set(1, 65535 - 3);
+        x.set(2, 0);
+        due.is("from what stands", x.drawn(5, 1, 1), 65535 - 2);
+        x.set(1, 65535);
+        due.is("all stand already", x.drawn(5, 400, 0), 0);
+        due.is("what stands", x.drawn(5, 400, 1), 65535);
+        due.is("it fell", x.drawn(5, 400, 2), 0);
+        further();
+        due.is("seed -1", x.drawn(-1, 0, 0), BAD);
+        due.is("seed 100000", x.drawn(100000, 0, 0), BAD);
+        due.is("n -1", x.drawn(0, -1, 0), BAD);
+        due.is("n 401", x.drawn(0, 401, 0), BAD);
+        due.is("what -1", x.drawn(0, 0, -1), BAD);
+        due.is("what 3", x.drawn(0, 0, 3), BAD);
+    }
+
+    /** By a law by which all fall alike, but at the first, the lots are counted here. */
+    private static void further() {
+        AGapEveryTwenty x = new AGapEveryTwenty();
+        Tape.obey(x, "falls 50;takes 1;closes 1;");
+        long lot = 12346;
+        int run = 0;
+        int fell = 0;
+        for (int i = 0; i < 400; i++) {
+            lot = lot * 48271 % 2147483647;
+            if (lot % 100 < 50) {
+                fell++;
+                run = 0;
+            } else {
+                run++;
+            }
+            due.is("a row that falls whole: " + i, x.drawn(12345, i + 1, 1), (1 << run) - 1);
+            due.is("how often: " + i, x.drawn(12345, i + 1, 2), fell);
+            if (run == 16) {
+                break;
+            }
+        }
+    }
+
+    private static void odds() {
+        AGapEveryTwenty x = new AGapEveryTwenty();
+        due.is("all of 12, above", x.odds(5, 12, 60, 0), 1);
+        due.is("all of 12, below", x.odds(5, 12, 60, 1), 1);
+        due.is("none, above", x.odds(5, 12, 15, 0), 0);
+        due.is("none, below", x.odds(5, 12, 15, 1), 1);
+        Tape.obey(x, "falls 5;takes 1;closes 1;");
+        for (int seeds = 1; seeds <= 20; seeds++) {
+            int full = 0;
+            for (int i = 0; i < seeds; i++) {
+                full += x.drawn(99979 - 3 + i, 20, 1) == 65535 ? 1 : 0;
+            }
+            long above = x.odds(99979 - 3, seeds, 20, 0);
+            long below = x.odds(99979 - 3, seeds, 20, 1);
+            due.is("as a part of " + seeds, above * seeds, full * below);
+            for (int d = 2; d <= 20; d++) {
+                due.is("lowest terms", above % d == 0 && below % d == 0 ? 1 : 0, 0);
+            }
+        }
+        // seeds may pass 99999: one more is as the next first lot
+        Tape.obey(x, "falls 50;takes 1;closes 1;");
+        x.set(1, 65534);
+        int full = 0;
+        for (int i = 0; i < 20; i++) {
+            full += (99999L + i + 1) * 48271 % 2147483647 % 100 >= 50 ? 1 : 0;
+        }
+        due.is("past 99999", x.odds(99999, 20, 1, 0) * 20, full * x.odds(99999, 20, 1, 1));
+        due.is("past 99999 there are some", full > 0 && full < 20 ? 1 : 0, 1);
+        due.is("seed -1", x.odds(-1, 1, 0, 0), NO);
+        due.is("seed 100000", x.odds(100000, 1, 0, 0), NO);
+        due.is("seeds 0", x.odds(0, 0, 0, 0), NO);
+        due.is("seeds 21", x.odds(0, 21, 0, 0), NO);
+        due.is("n -1", x.odds(0, 1, -1, 0), NO);
+        due.is("n 401", x.odds(0, 1, 401, 0), NO);
+        due.is("part -1", x.odds(0, 1, 0, -1), NO);
+        due.is("part 2", x.odds(0, 1, 0, 2), NO);
+        due.is("nothing stands by it", x.count(1), 65534);
+    }
+}
