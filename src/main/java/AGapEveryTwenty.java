@@ -192,9 +192,7 @@ public final class AGapEveryTwenty {
         }
         plans.from(row.now.end);
         picks.begin();
-        for (int size = 0; size <= many; size++) {
-            picks.trySets(0, 0, size);
-        }
+        picks.trySizes(many);
         return picks.answer(what);
     }
 
@@ -686,7 +684,8 @@ public final class AGapEveryTwenty {
 
         private final int[][] codes = new int[MOST_TEXTS][TAPE_ROOM];
         private final int[][] begins = new int[MOST_TEXTS][PARTS + 1];
-        private final int[] pile = new int[TAPE_ROOM];
+        /** Operands that wait for their operators; a place more, as what lies above the highest is looked at, too. */
+        private final int[] pile = new int[TAPE_ROOM + 1];
         int many;
 
         Texts() {
@@ -707,35 +706,34 @@ public final class AGapEveryTwenty {
         }
 
         int reckon(int t, int part, int[] names) {
-            int[] code = codes[t];
             int high = 0;
             for (int i = begins[t][part]; i < begins[t][part + 1]; i++) {
-                int c = code[i];
-                if (c > OR && high < pile.length) {
-                    pile[high] = c >= 0 ? c : names[NAME - c];
+                int c = codes[t][i];
+                if (c > OR) {
                     high++;
-                } else if (c == NOT && high > 0) {
-                    pile[high - 1] = pile[high - 1] == 0 ? 1 : 0;
-                } else if (c == OPPOSITE && high > 0) {
-                    pile[high - 1] = -pile[high - 1];
-                } else if (high > 1) {
+                } else if (c != NOT && c != OPPOSITE) {
                     high--;
-                    pile[high - 1] = joined(c, pile[high - 1], pile[high]);
                 }
+                if (high < 1 || high >= pile.length) {
+                    return 0;
+                }
+                int a = pile[high - 1];
+                int b = pile[high];
+                switch (c) {
+                    case OR: a = a != 0 || b != 0 ? 1 : 0; break;
+                    case AND: a = a != 0 && b != 0 ? 1 : 0; break;
+                    case LESS: a = a < b ? 1 : 0; break;
+                    case SAME: a = a == b ? 1 : 0; break;
+                    case PLUS: a += b; break;
+                    case MINUS: a -= b; break;
+                    case TIMES: a *= b; break;
+                    case NOT: a = a == 0 ? 1 : 0; break;
+                    case OPPOSITE: a = -a; break;
+                    default: a = c >= 0 ? c : names[NAME - c]; break;
+                }
+                pile[high - 1] = a;
             }
             return pile[0];
-        }
-
-        private static int joined(int operator, int a, int b) {
-            switch (operator) {
-                case OR: return a != 0 || b != 0 ? 1 : 0;
-                case AND: return a != 0 && b != 0 ? 1 : 0;
-                case LESS: return a < b ? 1 : 0;
-                case SAME: return a == b ? 1 : 0;
-                case PLUS: return a + b;
-                case MINUS: return a - b;
-                default: return a * b;
-            }
         }
     }
 
@@ -976,9 +974,7 @@ public final class AGapEveryTwenty {
         Row(Texts texts) {
             this.texts = texts;
             now = new State();
-            Arrays.fill(knownFalls, -1);
-            Arrays.fill(knownCloses, -1);
-            Arrays.fill(knownTakes, -1);
+            forget();
         }
 
         void forget() {
@@ -1005,14 +1001,17 @@ public final class AGapEveryTwenty {
             names[3] = Integer.bitCount(now.gaps);
             names[4] = now.end;
             names[5] = now.reach;
-            return Math.max(part == FALLS ? 0 : 1, Math.min(99, texts.reckon(now.law, part, names)));
+            return bounded(texts.reckon(now.law, part, names), part == FALLS ? 0 : 1);
+        }
+
+        private static int bounded(int v, int least) {
+            return v < least ? least : v > 99 ? 99 : v;
         }
 
         int falls(int p, int beside) {
             int i = p * BESIDES + beside;
             if (knownFalls[i] < 0) {
-                int falls = fallsByKind(p, says(FALLS, p, beside), beside);
-                knownFalls[i] = Math.max(0, Math.min(99, falls));
+                knownFalls[i] = bounded(fallsByKind(p, says(FALLS, p, beside), beside), 0);
             }
             return knownFalls[i];
         }
@@ -1274,8 +1273,15 @@ public final class AGapEveryTwenty {
             return what == 0 ? chosen : least;
         }
 
+        /** The smaller sets first, so that of like ones that of fewest stays. */
+        void trySizes(int many) {
+            for (int size = 0; size <= many; size++) {
+                trySets(0, 0, size);
+            }
+        }
+
         /** All sets of a set and so many more gaps from a place on, the lowest places first. */
-        void trySets(int set, int from, int left) {
+        private void trySets(int set, int from, int left) {
             if (left <= 0) {
                 consider(set, plans.meanBy(set));
             } else {
@@ -1307,7 +1313,7 @@ public final class AGapEveryTwenty {
 
         void drawRow(int seed, int n, int[] order) {
             begin(seed);
-            while (had < n && stands != ALL_PLACES) {
+            for (int i = 0; i < n && stands != ALL_PLACES; i++) {
                 putUp(firstEmpty(order));
             }
         }
