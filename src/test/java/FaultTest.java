@@ -5,6 +5,7 @@ public final class FaultTest {
     public static void main(String[] args) {
         faults();
         opens();
+        wholeTapes();
         sayings();
         due.end();
     }
@@ -38,6 +39,12 @@ public final class FaultTest {
         fault("falls plac;", 6);
         fault("falls places;", 6);
         fault("falls2place;", 6);
+        fault("falls placez;", 6);
+        fault("falls place0;", 11);
+        fault("falls{;", 5);
+        fault("falls`;", 5);
+        fault("falls/;", 5);
+        fault("falls:;", 5);
         fault("falls 2 x", 8);
         fault("falls 2 @", 8);
         fault("Falls 2;", 0);
@@ -87,6 +94,44 @@ public final class FaultTest {
         fault("falls (((((1 - -1)))))" + rest, 15);
         good("falls ((((-1 + -1 * -1))))" + rest);
         fault("falls ((((-1 + -(1)))))" + rest, 16);
+    }
+
+    private static void times(AGapEveryTwenty x, String sign, int many) {
+        for (int i = 0; i < many; i++) {
+            Tape.feed(x, sign);
+        }
+    }
+
+    /** Texts as long as the tape, and shorter ones that come behind longer ones. */
+    private static void wholeTapes() {
+        AGapEveryTwenty x = new AGapEveryTwenty();
+        times(x, " ", 160);
+        due.is("blanks alone", x.text(), -260);
+        times(x, "a", 160);
+        due.is("a long word", x.text(), -100);
+        times(x, "1", 160);
+        due.is("a long number at once", x.text(), -100);
+        Tape.feed(x, "falls ");
+        times(x, "0", 154);
+        due.is("a long number", x.text(), -106);
+        Tape.feed(x, "falls 1;takes 1;closes 1;");
+        times(x, "\n", 135);
+        due.is("blanks at last", x.text(), 1);
+        Tape.feed(x, "falls 1");
+        times(x, "+1", 68);
+        Tape.feed(x, ";takes 1;closes 1");
+        due.is("160 and the end", x.count(6), 160);
+        due.is("too early by one", x.text(), -260);
+        Tape.feed(x, "falls 1");
+        times(x, "+1", 67);
+        Tape.feed(x, " ;takes 1;closes 1;");
+        due.is("160", x.count(6), 160);
+        due.is("as many signs as there is room for", x.text(), 2);
+        x.force(2);
+        due.is("what they say", x.told(0, 2), 68);
+        due.is("too short behind a longer one", Tape.read(x, "falls 1;takes 1;closes 1"), -124);
+        due.is("a word behind a longer one", Tape.read(x, "fall"), -100);
+        due.is("a number behind a longer one", Tape.read(x, "falls 1"), -107);
     }
 
     private static void says(String e, int want) {

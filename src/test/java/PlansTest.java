@@ -15,6 +15,7 @@ public final class PlansTest {
         whiches();
         stops();
         dears();
+        oneByOne();
         atOnce();
         due.end();
     }
@@ -143,6 +144,18 @@ public final class PlansTest {
         due.is("a gap that stops", y.mean(1 << 4, 0), 15000 + 4000 + 1000);
         due.is("gaps beside one that stops", y.mean(7 << 3, 0),
                 13000 + (1000 + 4000) + (4000 + 1000) + (1000 + 11000));
+        AGapEveryTwenty w = new AGapEveryTwenty();
+        due.is("a gap beside the last", w.mean(1 << 14, 0), same(14) + 3061 + closed(3, 10, 2, same(14) + 3061));
+        w.lay(4, 4, 0);
+        long ruled = up(0, 6, 4);
+        due.is("a gap behind a stop", w.mean(1 << 5, 0), same(4) + ruled + same(10) + closed(3, 10, 2, same(10)));
+        due.is("a gap farther behind a stop", w.mean(1 << 8, 0),
+                same(4) + ruled + same(3) + same(7) + closed(3, 10, 2, same(3) + same(7)));
+        due.is("gaps on both sides of a stop", w.mean(1 << 3 | 1 << 8, 0), same(3) + closed(3, 10, 2, same(3))
+                + ruled + same(3) + same(7) + closed(3, 10, 2, same(3) + same(7)));
+        due.is("a gap that stops between gaps", w.mean(1 << 2 | 1 << 4 | 1 << 6, 0),
+                same(2) + same(1) + closed(3, 10, 2, same(2) + same(1)) + closed(6, 10, 4, 0)
+                + same(1) + same(9) + closed(3, 10, 2, same(1) + same(9)));
         AGapEveryTwenty z = by("falls beside;takes 1;closes 1;");
         long twice = 0;
         for (int i = 0; i < 4; i++) {
@@ -219,11 +232,26 @@ public final class PlansTest {
             due.is("best from " + way, z.best(2, 1), z.mean((int) z.best(2, 0), way));
             due.is("none is better than that", z.best(2, 1) <= z.mean(1 << 8, way) ? 1 : 0, 1);
         }
+        bestAtEdges();
         bestOfLikeOnes();
         due.is("many -1", x.best(-1, 0), NO);
         due.is("many 5", x.best(5, 0), NO);
         due.is("what -1", x.best(0, -1), NO);
         due.is("what 2", x.best(0, 2), NO);
+    }
+
+    /** Laws by which all but one set are dear: one with place 0, one with place 15, one of places side by side. */
+    private static void bestAtEdges() {
+        AGapEveryTwenty x = by("falls 99*(place=0 and beside<15);takes 1;closes 1;");
+        due.is("place 0", x.best(1, 0), 1);
+        due.is("place 0: mean", x.best(4, 1), 17000);
+        AGapEveryTwenty y = by("falls 99*(place=15 and beside<15);takes 1;closes 1;");
+        y.set(2, 1);
+        due.is("place 15", y.best(4, 0), 1 << 15);
+        AGapEveryTwenty z = by("falls 99*(place=7 and not beside=7 or place=8 and not beside=15);takes 1;closes 1;");
+        z.set(2, 1);
+        due.is("side by side", z.best(2, 0), 3 << 7);
+        due.is("side by side: mean", z.best(2, 1), 18000);
     }
 
     /** No gap and single ones are dear by this law; {1, 15} and {2, 4} are alike, and no other two as good. */
@@ -260,6 +288,10 @@ public final class PlansTest {
         AGapEveryTwenty z = by("falls 0;takes 1;closes 5;");
         due.is("of like ones the least", z.every(0), 9);
         due.is("of like ones: mean", z.every(1), 16000 + 5000);
+        // 2: a gap at every other place
+        AGapEveryTwenty u = by("falls 99*(beside=1);takes 1;closes 1;");
+        due.is("2 at first", u.every(0), 2);
+        due.is("2 at first: mean", u.every(1), 24000);
         // 16: a gap at place 15
         AGapEveryTwenty v = by("falls 0;takes 1;closes 99*(not place=15)+1;");
         due.is("16 at last", v.every(0), 16);
@@ -304,6 +336,10 @@ public final class PlansTest {
                 first = p;
             }
         }
+        // the first place
+        AGapEveryTwenty w = by("falls 99*(place=1 and beside=1);takes 1;closes 1;");
+        due.is("a stop at place 0", w.stop(0), 0);
+        due.is("a stop at place 0: by how much", w.stop(1), 2000 * 100 + 14000 - (4000 + 15000));
         due.is("with its MORE", x.stop(0), first);
         due.is("by how much", x.stop(1), less[first]);
         due.is("nothing is ruled by it", x.told(first, 0), 0);
@@ -328,15 +364,41 @@ public final class PlansTest {
         z.set(0, 1 << 2 | 1 << 9 | 1 << 12);
         due.is("of like ones the first", z.dear(0), 2);
         due.is("its gap is one yet", z.count(0), 1 << 2 | 1 << 9 | 1 << 12);
+        AGapEveryTwenty w = by("falls 0;takes 1;closes 16-place;");
+        w.set(0, 1);
+        due.is("place 0 alone", w.dear(0), 0);
+        due.is("place 0 alone: mean", w.dear(1), 16000);
+        w.set(0, 1 | 1 << 15);
+        due.is("place 0 of two", w.dear(0), 0);
+        due.is("place 0 of two: mean", w.dear(1), 17000);
+        w.set(0, 1 << 14 | 1 << 15);
+        due.is("asked again of others", w.dear(1), 17000);
         AGapEveryTwenty v = by("falls place+beside;takes 1;closes 5;");
         v.set(0, 1 << 5);
         v.set(2, 1);
         due.is("one gap, from END", v.dear(1), v.mean(0, 1));
     }
 
+    /** No call is led by what an earlier one has found, though that was less. */
+    private static void oneByOne() {
+        AGapEveryTwenty x = by("falls 0;takes 1;closes 1;");
+        x.set(0, 1 << 3 | 1 << 7 | 1 << 9);
+        long none = x.best(0, 1);
+        due.is("best", none, 16000);
+        due.is("every", x.every(0), 9);
+        due.is("best again", x.best(0, 1), none);
+        due.is("which", x.which(0), 0);
+        due.is("best once more", x.best(0, 1), none);
+        due.is("dear", x.dear(0), 3);
+        due.is("best at last", x.best(0, 1), none);
+        due.is("stop", x.stop(0), -1);
+        due.is("plan", x.plan(), 19000);
+    }
+
     private static void atOnce() {
         AGapEveryTwenty x = new AGapEveryTwenty();
         due.is("all spots", x.likely(0, 0), 723797716L);
+        due.is("all gaps", x.likely(65535, 2), 723797716L);
         AGapEveryTwenty y = by("falls beside;takes 1;closes 1;");
         y.lay(3, 2, 0);
         // gaps at 0 and 4; stretches 1 .. 3 and 5 .. 15; place 3 falls twice as much

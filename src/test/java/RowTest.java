@@ -68,10 +68,14 @@ public final class RowTest {
         due.is("BAD ahead of FULL", x.feed(1, 0, 0, 0, 0, -1), BAD);
         due.is("text of no token", x.text(), -100);
         due.is("the tape is empty", x.count(6), 0);
-        // the bytes come in their order
+        // the bytes come in their order, and no more than the first n
         x.feed(5, 'f', 'a', 'l', 'l', 's');
-        x.feed(3, ' ', '7', ';', 0, 0);
-        Tape.feed(x, "takes 1;closes 1;");
+        x.feed(3, ' ', '7', ';', '@', '@');
+        x.feed(4, 't', 'a', 'k', 'e', '@');
+        x.feed(2, 's', ' ', '@', '@', '@');
+        x.feed(1, '1', '@', '@', '@', '@');
+        due.is("how many came", x.count(6), 15);
+        Tape.feed(x, ";closes 1;");
         due.is("fed text", x.text(), 1);
         x.force(1);
         due.is("fed law", x.told(0, 2), 7);

@@ -84,6 +84,8 @@ public final class StandsTest {
         x.set(1, 1 << 15);
         due.is("one alone", x.far(0), 15);
         due.is("one alone: how many", x.far(1), 1);
+        due.is("from place 0", standing(65535).far(0), 0);
+        due.is("from place 0: how many", standing(65535).far(1), 16);
     }
 
     private static void tips() {
@@ -172,6 +174,7 @@ public final class StandsTest {
         due.is("what stands", x.drawn(5, 400, 1), 65535);
         due.is("it fell", x.drawn(5, 400, 2), 0);
         further();
+        due.is("seed 99999", x.drawn(99999, 0, 0), 0);
         due.is("seed -1", x.drawn(-1, 0, 0), BAD);
         due.is("seed 100000", x.drawn(100000, 0, 0), BAD);
         due.is("n -1", x.drawn(0, -1, 0), BAD);
@@ -222,6 +225,17 @@ public final class StandsTest {
                 due.is("lowest terms", above % d == 0 && below % d == 0 ? 1 : 0, 0);
             }
         }
+        due.is("400 lots", x.odds(0, 1, 400, 1), 1);
+        AGapEveryTwenty y = new AGapEveryTwenty();
+        Tape.obey(y, "falls 60*(place=0 and beside=0);takes 1;closes 1;");
+        y.plan();
+        y.set(2, 1);
+        int fromRight = 0;
+        for (int i = 0; i < 20; i++) {
+            fromRight += y.drawn(500 + i, 16, 1) == 65535 ? 1 : 0;
+        }
+        due.is("odds from the right", y.odds(500, 20, 16, 0) * 20, fromRight * y.odds(500, 20, 16, 1));
+        due.is("from the right place 0 has some beside", fromRight, 20);
         // seeds may pass 99999: one more is as the next first lot
         Tape.obey(x, "falls 50;takes 1;closes 1;");
         x.set(1, 65534);

@@ -72,6 +72,13 @@ public final class ToldTest {
         due.is("side 3", x.origin(0, 3), -7);
         write(x, 0, 0);
         due.is("none told: only those that stand", x.origin(0, 0), 0);
+        x.set(1, 0b1111);
+        write(x, 0, 0b1111);
+        due.is("from place 0 to the right", x.origin(0, 1), 1);
+        due.is("to the left, from the last", x.origin(0, 2), 0b1000);
+        write(x, 0, 0b1110);
+        due.is("otherwise at place 0", x.origin(0, 1), 0b0010);
+        due.is("otherwise at place 0, to the left", x.origin(0, 2), 0);
     }
 
     private static void hows() {
@@ -98,6 +105,9 @@ public final class ToldTest {
         write(x, 0, 0);
         due.is("none stands there: sides", x.how(0, 15, 0), 0b111);
         due.is("none stands there: reaches", x.how(0, 15, 12), 0b111);
+        write(x, 0, 0b0101_0110_0111);
+        x.set(3, 0);
+        due.is("sort 1 to both sides", x.how(0, 10, 10), 0b100);
         due.is("place -1", x.how(0, -1, 0), -5);
         due.is("place 16 ahead of sortSide", x.how(0, 16, 99), -5);
         for (int bad : new int[] {-1, 3, 9, 13, 19, 20, 21, 22, 100, -10, Integer.MAX_VALUE, Integer.MIN_VALUE}) {
@@ -237,6 +247,15 @@ public final class ToldTest {
         due.is("sheet 0 is as before", x.check(0), -1);
     }
 
+    private static long planAsKept() {
+        AGapEveryTwenty x = new AGapEveryTwenty();
+        Tape.obey(x, "falls 9;takes 8;closes 7;");
+        x.lay(3, 4, 5);
+        x.set(0, 6);
+        x.set(2, 1);
+        return x.plan();
+    }
+
     private static void images() {
         AGapEveryTwenty x = new AGapEveryTwenty();
         due.is("no image", x.back(), STATE);
@@ -264,6 +283,7 @@ public final class ToldTest {
             for (int what = 0; what < 7; what++) {
                 due.is("count(" + what + ") of the image", x.count(what), want[what]);
             }
+            due.is("its plan", x.plan(), planAsKept());
             due.is("KIND", x.told(3, 0), 4);
             due.is("MORE", x.told(3, 1), 5);
             due.is("FALLS", x.told(3, 2), 18);
@@ -272,6 +292,8 @@ public final class ToldTest {
             due.is("another MORE", x.told(0, 1), 0);
             due.is("sheets are kept apart", x.cell(0, 2, 3), 1);
             x.lay(3, 0, 0);
+            x.force(2);
+            due.is("another law", x.told(3, 2), 5);
             x.tip(1, 0);
         }
         due.is("a new image", x.image(), 0);
