@@ -141,6 +141,9 @@ public final class RowTest {
         due.is("takes 99 at most", x.asks(1, 0, 0), 99);
         due.is("beside", x.asks(2, 0, 16), 32);
         due.is("closes 1 at least", x.asks(2, 0, 0), 1);
+        Tape.obey(x, "falls 1;takes beside+1;closes 1;");
+        due.is("takes, beside as told", x.asks(1, 0, 7), 8);
+        due.is("TAKES, beside 0", x.told(0, 3), 1);
     }
 
     private static void lays() {
