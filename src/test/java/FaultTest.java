@@ -69,6 +69,20 @@ public final class FaultTest {
         fault("falls (1", 8);
         fault("falls 1;takes", 13);
         fault("falls 1;takes 1;closes >", 23);
+        // a word that is none, where the token ahead of it could stand once more
+        fault("falls (x(1));takes 1;closes 1;", 7);
+        fault("falls not x 1;takes 1;closes 1;", 10);
+        fault("falls - x 1;takes 1;closes 1;", 8);
+        fault("x falls 1;takes 1;closes 1;", 0);
+        fault("falls 1 x;takes 1;closes 1;", 8);
+        fault("falls 1;x takes 1;closes 1;", 8);
+        fault("falls 1;takes 1;closes 1 x;", 25);
+        fault("falls 1;takes 1;closes 1;x", 25);
+        fault("falls 1;takes 1;closes 1;12345", 25);
+        // the first of several faults, though a later one is of bytes
+        fault("falls 1 1;takes 12345;@", 8);
+        fault("falls 1;takes 12345;@", 14);
+        fault("falls 1;takes 1 @ x", 16);
         good("falls 1 - -1;takes not not 1;closes (not 1 < 2) + 1;");
         good("falls 1 < 2 and 2 < 3 or not 1 = 2;takes 1;closes 1;");
     }
@@ -97,9 +111,7 @@ public final class FaultTest {
     }
 
     private static void times(AGapEveryTwenty x, String sign, int many) {
-        for (int i = 0; i < many; i++) {
-            Tape.feed(x, sign);
-        }
+        Tape.feed(x, sign.repeat(many));
     }
 
     /** Texts as long as the tape, and shorter ones that come behind longer ones. */
@@ -180,6 +192,21 @@ public final class FaultTest {
         says("0007", 7);
         says("9999 * 9999 * 9999 * 9999 < 0", (9999 * 9999 * 9999 * 9999) < 0 ? 1 : 0);
         says("9999 * 9999 * 9999 = " + "(0 - 9999) * (0 - 9999) * 9999", 1);
+        says("not -1", 0);
+        says("-1 and -2", 1);
+        says("-1 or 0", 1);
+        says("not not -7", 1);
+        says("0 < -1", 0);
+        says("9999 - 9999", 0);
+        String most = "1024*1024*1024-1+1024*1024*1024";
+        says(most + " < 0", 0);
+        says(most + "+1 < 0", 1);
+        says("-(" + most + "+1) < 0", 1);
+        says("-(" + most + ")-1 < 0", 1);
+        says("-(" + most + ")-2 = " + most, 1);
+        says("1024*1024*1024*4", 0);
+        says("(" + most + ")*2", -2);
+        says("(" + most + ")*(" + most + ")", 1);
         says("9000 * 9000 * 53 < 0", 9000 * 9000 * 53 < 0 ? 1 : 0);
     }
 }

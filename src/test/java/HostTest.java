@@ -161,6 +161,14 @@ public final class HostTest {
         due.is("the third stone", x.taken(21, 6), 3);
         due.is("the last stone", x.taken(31, 6), 4);
         due.is("none between", x.taken(20, 6), -11);
+        x.set(1, 65535);
+        for (int p = 0; p < 16; p++) {
+            due.is("stone at " + p + " of all", x.taken(16 + p, 6), p + 1);
+        }
+        x.set(1, 1);
+        due.is("stone at 0 alone", x.taken(16, 6), 1);
+        x.set(1, 1 << 15);
+        due.is("stone at 15 alone", x.taken(31, 6), 1);
         for (int as = 0; as < 6; as++) {
             due.is("a stone taken for " + as, x.taken(31, as), -13);
         }

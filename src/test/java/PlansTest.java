@@ -3,6 +3,8 @@ public final class PlansTest {
     private static final int BAD = AGapEveryTwenty.BAD;
     private static final long NO = AGapEveryTwenty.NO;
     private static final Due due = new Due("PlansTest");
+    private static AGapEveryTwenty calmed = null;
+    private static String calmedLaw = "";
 
     public static void main(String[] args) {
         stretches();
@@ -24,6 +26,15 @@ public final class PlansTest {
         AGapEveryTwenty x = new AGapEveryTwenty();
         due.is("reads " + law, Tape.obey(x, law), 1);
         return x;
+    }
+
+    /** An object for few calls: one that has had 512 promises nothing. */
+    private static AGapEveryTwenty fresh(String law, int turn) {
+        if (turn % 64 == 0 || calmed == null || !law.equals(calmedLaw)) {
+            calmed = by(law);
+            calmedLaw = law;
+        }
+        return calmed;
     }
 
     private static void stretches() {
@@ -156,6 +167,7 @@ public final class PlansTest {
         due.is("a gap that stops between gaps", w.mean(1 << 2 | 1 << 4 | 1 << 6, 0),
                 same(2) + same(1) + closed(3, 10, 2, same(2) + same(1)) + closed(6, 10, 4, 0)
                 + same(1) + same(9) + closed(3, 10, 2, same(1) + same(9)));
+        nothingJoined();
         AGapEveryTwenty z = by("falls beside;takes 1;closes 1;");
         long twice = 0;
         for (int i = 0; i < 4; i++) {
@@ -168,7 +180,25 @@ public final class PlansTest {
         due.is("falls by beside of a gap", z.mean(1 << 4, 0), twice + many + closed(1, 1, 15, twice + many));
     }
 
+    /** AGAIN is 0 where there is nothing to join: with FALLS 99 a thousandth more would be seen. */
+    private static void nothingJoined() {
+        long alone = closed(1, 1, 99, 0);
+        AGapEveryTwenty x = by("falls 99*(place=0);takes 1;closes 1;");
+        due.is("the first gap beside a gap", x.mean(3, 0), 14000 + alone + 2000);
+        AGapEveryTwenty y = by("falls 99*(place=14);takes 1;closes 1;");
+        due.is("nothing to its right but a gap", y.mean(3 << 14, 0), 14000 + closed(1, 1, 99, 14000) + 2000);
+        AGapEveryTwenty z = by("falls 99*(place=15);takes 1;closes 1;");
+        due.is("nothing to the right of the last", z.mean(1 << 15, 0), 15000 + closed(1, 1, 99, 15000));
+        AGapEveryTwenty w = by("falls 99*(place=6);takes 1;closes 1;");
+        w.lay(5, 4, 0);
+        due.is("a gap between a stop and a gap", w.mean(3 << 6, 0), 5000 + 4000 + 8000 + alone + 2000);
+        AGapEveryTwenty v = by("falls 99*(beside=0);takes 1;closes 1;");
+        v.lay(5, 4, 0);
+        due.is("all gaps, one of them stops", v.mean(65535, 0), 2 * alone + closed(4, 1, 99, 0) + 13 * 2000);
+    }
+
     private static void bounds() {
+        atTheMost();
         AGapEveryTwenty x = by("falls 99;takes 99;closes 99;");
         for (int way = 0; way < 3; way++) {
             due.is("the most, no gap", x.mean(0, way), 1000000000000L);
@@ -185,6 +215,37 @@ public final class PlansTest {
         due.is("below the most", y.mean(0, 0), t);
     }
 
+    /** Means at 1000000000000 are like ones. */
+    private static void atTheMost() {
+        long most = 1000000000000L;
+        AGapEveryTwenty x = by("falls 99;takes 99;closes 99;");
+        x.set(0, 1 << 3 | 1 << 9);
+        x.set(2, 2);
+        due.is("best: the set of fewest", x.best(4, 0), 0);
+        due.is("best", x.best(4, 1), most);
+        due.is("every: the least k", x.every(0), 2);
+        due.is("every", x.every(1), most);
+        due.is("which: the least END", x.which(0), 0);
+        due.is("which", x.which(1), most);
+        due.is("stop: nowhere less", x.stop(0), -1);
+        due.is("stop: by nothing", x.stop(1), 0);
+        due.is("dear: the first gap", x.dear(0), 3);
+        due.is("dear", x.dear(1), most);
+        // 9900000, 999900000, 99999900000, 999999990000, and then more than the most
+        AGapEveryTwenty y = by("falls 99*(place<3)+90*(place=3);takes 99;closes 1;");
+        due.is("one more than the most", y.mean(0, 0), most);
+        y.lay(4, 4, 0);
+        due.is("all together more than the most", y.mean(0, 0), most);
+        AGapEveryTwenty z = by("falls 99*(place<3)+89*(place=3)+50*(place=5);takes 1+98*(place<4);closes 1;");
+        long t = 0;
+        for (int p = 0; p < 4; p++) {
+            t = up(t, 99, p < 3 ? 99 : 89);
+        }
+        z.lay(4, 4, 0);
+        due.is("together less than the most", z.mean(0, 0), t + 4000 + 2000 + 10000);
+        due.is("with a gap, less than the most", z.mean(1 << 5, 0), t + 4000 + 10000 + closed(1, 1, 50, 10000));
+    }
+
     private static void plans() {
         AGapEveryTwenty x = new AGapEveryTwenty();
         for (int p = 0; p < 16; p++) {
@@ -197,6 +258,7 @@ public final class PlansTest {
                 due.is("plan() by " + set + " from " + way, x.plan(), x.mean(set, way));
             }
         }
+        asTold();
         // names tell what is told, whatever is tried
         AGapEveryTwenty y = by("falls gaps;takes end+1;closes 1;");
         y.set(2, 1);
@@ -209,17 +271,56 @@ public final class PlansTest {
         due.is("gaps as told", y.mean(0, 2), t);
     }
 
+    /** gaps, end as they are told, whatever is tried. */
+    private static void asTold() {
+        AGapEveryTwenty x = by("falls 0;takes 1+gaps;closes 1+end;");
+        x.set(0, 7);
+        x.set(2, 1);
+        due.is("best: gaps as told", x.best(2, 1), 64000);
+        due.is("every: gaps, end as told", x.every(1), 64000 + 2000);
+        due.is("which: end as told", x.which(1), 64000 + 6000);
+        due.is("which: all are like", x.which(0), 0);
+        due.is("dear: gaps as told", x.dear(1), 64000 + 4000);
+        due.is("mean: gaps, end as told", x.mean(1, 2), 64000 + 2000);
+        AGapEveryTwenty y = by("falls 5+gaps+end+reach;takes 1;closes 1;");
+        y.set(0, 7);
+        y.set(2, 2);
+        y.set(3, 2);
+        long c = 1000000000L;
+        for (int p = 0; p < 16; p++) {
+            c = c * 88 / 100;
+        }
+        due.is("likely: gaps, end, reach as told", y.likely(0, 0), c);
+    }
+
+    /** Only by gaps at 3, 7, 11, 15 or the like no four are put up side by side: fewer than four do not do. */
+    private static void bestOfFour() {
+        AGapEveryTwenty x = by("falls 99*(beside=3);takes 1;closes 1;");
+        due.is("four gaps", x.best(4, 0), 1 << 1 | 1 << 5 | 1 << 8 | 1 << 12);
+        due.is("four gaps: mean", x.best(4, 1), 12000 + 4 * 2000);
+        due.is("three are dearer", x.best(3, 1) > 20000 ? 1 : 0, 1);
+        due.is("three at most", Long.bitCount(x.best(3, 0)) <= 3 ? 1 : 0, 1);
+        x.set(0, 1 << 1 | 1 << 5 | 1 << 8 | 1 << 12);
+        due.is("none at all, whatever the GAPS are", x.best(0, 0), 0);
+        due.is("none at all: mean", x.best(0, 1), x.mean(0, 0));
+    }
+
     private static void bests() {
-        AGapEveryTwenty x = by("falls 30;takes 1;closes 1;");
+        bestOfFour();
+        String law = "falls 30;takes 1;closes 1;";
+        long[] leasts = new long[5];
         for (int many = 0; many <= 4; many++) {
-            long least = Long.MAX_VALUE;
+            leasts[many] = many == 0 ? Long.MAX_VALUE : leasts[many - 1];
             for (int set = 0; set < 65536; set++) {
-                if (Integer.bitCount(set) <= many) {
-                    least = Math.min(least, x.mean(set, 0));
+                if (Integer.bitCount(set) == many) {
+                    leasts[many] = Math.min(leasts[many], fresh(law, set).mean(set, 0));
                 }
             }
-            due.is("best(" + many + ", 1)", x.best(many, 1), least);
-            due.is("best(" + many + ", 0) has that", x.mean((int) x.best(many, 0), 0), least);
+        }
+        AGapEveryTwenty x = by(law);
+        for (int many = 0; many <= 4; many++) {
+            due.is("best(" + many + ", 1)", x.best(many, 1), leasts[many]);
+            due.is("best(" + many + ", 0) has that", x.mean((int) x.best(many, 0), 0), leasts[many]);
         }
         // of like ones that of fewest
         AGapEveryTwenty y = by("falls 0;takes 1;closes 1;");
@@ -265,6 +366,14 @@ public final class PlansTest {
         due.is("with more", x.best(3, 0), 1 << 1 | 1 << 15);
     }
 
+    private static int gapsEvery(int k) {
+        int set = 0;
+        for (int p = k - 1; p < 16; p += k) {
+            set |= 1 << p;
+        }
+        return set;
+    }
+
     private static void everies() {
         AGapEveryTwenty x = new AGapEveryTwenty();
         due.is("every(0)", x.every(0), 9);
@@ -273,12 +382,8 @@ public final class PlansTest {
         long least = Long.MAX_VALUE;
         int chosen = 0;
         for (int k = 2; k <= 16; k++) {
-            int set = 0;
-            for (int p = k - 1; p < 16; p += k) {
-                set |= 1 << p;
-            }
-            if (y.mean(set, 0) < least) {
-                least = y.mean(set, 0);
+            if (y.mean(gapsEvery(k), 0) < least) {
+                least = y.mean(gapsEvery(k), 0);
                 chosen = k;
             }
         }
@@ -344,6 +449,12 @@ public final class PlansTest {
         due.is("by how much", x.stop(1), less[first]);
         due.is("nothing is ruled by it", x.told(first, 0), 0);
         AGapEveryTwenty z = by("falls 0;takes 1;closes 1;");
+        AGapEveryTwenty ruled = new AGapEveryTwenty();
+        for (int p = 0; p < 16; p++) {
+            ruled.lay(p, 4, p % 10);
+        }
+        due.is("all stop already", ruled.stop(0), -1);
+        due.is("all stop already: by nothing", ruled.stop(1), 0);
         due.is("nowhere less", z.stop(0), -1);
         due.is("by nothing", z.stop(1), 0);
         due.is("what -1", x.stop(-1), NO);
@@ -393,6 +504,37 @@ public final class PlansTest {
         due.is("best at last", x.best(0, 1), none);
         due.is("stop", x.stop(0), -1);
         due.is("plan", x.plan(), 19000);
+        AGapEveryTwenty y = by("falls place;takes 1;closes 1;");
+        y.set(0, 1 << 6 | 1 << 15);
+        due.is("without a gap", y.dear(1) < y.which(1) ? 1 : 0, 1);
+        due.is("which behind dear", y.which(0), 1);
+        due.is("which behind dear: mean", y.which(1), y.mean(1 << 6 | 1 << 15, 1));
+        due.is("every behind best", y.best(4, 1) < y.every(1) ? 1 : 0, 1);
+        due.is("every behind best: k", y.every(0) >= 2 ? 1 : 0, 1);
+        due.is("every behind best: mean", y.every(1), y.mean(gapsEvery((int) y.every(0)), 0));
+    }
+
+    /** Gaps from the left on, each with none beside: seen by the cuts, one set asked behind another. */
+    private static void gapsAtLast() {
+        AGapEveryTwenty x = by("falls place+5+30*(not beside=0);takes 1;closes 1;");
+        for (int set : new int[] {0, 65535, 1, 1 << 15, 1 | 1 << 7 | 1 << 15, 0b1010_1010_1010_1010, 0b0101_0101_0101_0101}) {
+            long c = 1000000000L;
+            for (int p = 0; p < 16; p++) {
+                if ((set >> p & 1) == 0) {
+                    c = c * (100 - p - 5 - (p > 0 && (set >> p - 1 & 1) == 0 ? 30 : 0)) / 100;
+                }
+            }
+            for (int p = 0; p < 16; p++) {
+                if ((set >> p & 1) == 1) {
+                    c = c * (100 - p - 5) / 100;
+                }
+            }
+            due.is("likely by " + set, x.likely(set, 0), c);
+        }
+        AGapEveryTwenty y = by("falls 99;takes 1;closes 1;");
+        due.is("cut to nothing", y.likely(0, 1), 0);
+        AGapEveryTwenty z = by("falls 0;takes 1;closes 1;");
+        due.is("none falls", z.likely(21845, 1), 1000000000L);
     }
 
     private static void atOnce() {
@@ -413,6 +555,7 @@ public final class PlansTest {
             }
             due.is("likely by gaps from " + way, y.likely(1 | 1 << 4, way), c);
         }
+        gapsAtLast();
         // gaps at last, beside 0
         AGapEveryTwenty z = by("falls place*6+beside;takes 1;closes 1;");
         long c = 1000000000L;

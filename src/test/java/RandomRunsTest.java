@@ -5,6 +5,9 @@ public final class RandomRunsTest {
     private static final String[] NAMES = {"place", "more", "beside", "gaps", "end", "reach"};
     private static final String[] ODD = {"(", ")", ";", "not", "-", "or", "x", "12345", "<", "=", "@", "A", "fall", "\t"};
 
+    /** An object that has had 512 calls promises nothing: a step has at most 50, look() 108. */
+    private static final int ENOUGH = 350;
+
     private final Random random;
     private final Due due;
     private AGapEveryTwenty x;
@@ -17,7 +20,7 @@ public final class RandomRunsTest {
 
     public static void main(String[] args) {
         Due due = new Due("RandomRunsTest");
-        int runs = args.length > 0 ? Integer.parseInt(args[0]) : 250;
+        int runs = args.length > 0 ? Integer.parseInt(args[0]) : 300;
         long first = args.length > 1 ? Long.parseLong(args[1]) : 1;
         for (long seed = first; seed < first + runs; seed++) {
             new RandomRunsTest(seed, due).run(seed);
@@ -31,8 +34,9 @@ public final class RandomRunsTest {
     private void run(long seed) {
         x = new AGapEveryTwenty();
         y = new SlowTwenty();
-        for (int call = 0; call < 400; call++) {
-            step("run " + seed + ", call " + call + ": ");
+        int begun = due.asked();
+        while (due.asked() - begun < ENOUGH) {
+            step("run " + seed + ", call " + (due.asked() - begun) + ": ");
         }
         look("run " + seed + ", at last: ");
     }
@@ -41,9 +45,10 @@ public final class RandomRunsTest {
     private void runTexts(long seed) {
         x = new AGapEveryTwenty();
         y = new SlowTwenty();
-        for (int i = 0; i < 12; i++) {
+        int begun = due.asked();
+        for (int i = 0; due.asked() - begun < ENOUGH; i++) {
             stepText("texts " + seed + ", text " + i + ": ");
-            for (int k = 0; k < 12; k++) {
+            for (int k = 0; k < 8; k++) {
                 stepRow("texts " + seed + ", text " + i + ": ");
             }
             for (int part = 0; part < 3; part++) {

@@ -12,6 +12,7 @@ public final class RowTest {
         asks();
         lays();
         tells();
+        bounds();
         due.end();
     }
 
@@ -94,6 +95,9 @@ public final class RowTest {
         due.is("FULL ahead of the FAULT", x.text(), FULL);
         due.is("the tape stays, too", x.count(6), 26);
         due.is("the law", x.count(5), 0);
+        due.is("behind the last text", x.force(6), BAD);
+        due.is("the last text", x.force(5), 0);
+        due.is("what it says", x.told(0, 2), 5);
         AGapEveryTwenty y = new AGapEveryTwenty();
         due.is("a fault", Tape.read(y, "falls ;"), -106);
         due.is("the tape by a fault", y.count(6), 0);
@@ -192,5 +196,63 @@ public final class RowTest {
         due.is("a DOOR with 3 beside", x.put(3, 99), 3);
         x.set(1, 6);
         due.is("a DOOR with 2 beside", x.put(3, 99), -1);
+    }
+
+    private static void bound(String e, int kind, int more, int falls) {
+        AGapEveryTwenty x = new AGapEveryTwenty();
+        Tape.obey(x, "falls " + e + ";takes 1;closes 1;");
+        x.lay(8, kind, more);
+        due.is("FALLS of " + e + ", KIND " + kind + ", MORE " + more, x.told(8, 2), falls);
+    }
+
+    /** FALLS 0 .. 99, TAKES 1 at least, what a text says: else the bound. */
+    private static void bounds() {
+        bound("99", 0, 9, 99);
+        bound("100", 0, 9, 99);
+        bound("0", 0, 9, 0);
+        bound("-1", 0, 9, 0);
+        bound("95", 1, 4, 99);
+        bound("95", 1, 5, 99);
+        bound("0", 1, 0, 0);
+        bound("49", 2, 9, 98);
+        bound("50", 2, 9, 99);
+        bound("95", 3, 4, 99);
+        bound("95", 3, 9, 99);
+        bound("49", 4, 9, 98);
+        bound("50", 4, 0, 99);
+        bound("95", 5, 0, 47);
+        bound("1", 5, 0, 0);
+        bound("99", 5, 9, 9);
+        // the text's bound is kept ahead of what the KIND makes of it
+        bound("-7", 1, 9, 9);
+        bound("-7", 3, 9, 9);
+        bound("1000", 5, 0, 49);
+        bound("1000", 5, 9, 9);
+        String most = "(1024*1024*1024-1+1024*1024*1024)";
+        bound(most, 0, 0, 99);
+        bound(most, 1, 9, 99);
+        bound(most + "+1", 0, 0, 0);
+        bound(most + "+1", 1, 9, 9);
+        AGapEveryTwenty x = new AGapEveryTwenty();
+        int[][] says = {{-1, 1}, {0, 1}, {1, 1}, {2, 2}, {98, 98}, {99, 99}, {100, 99}, {9999, 99}};
+        for (int t = 0; t < says.length; t++) {
+            AGapEveryTwenty y = new AGapEveryTwenty();
+            Tape.obey(y, "falls 1;takes " + says[t][0] + ";closes " + says[t][0] + ";");
+            due.is("takes " + says[t][0], y.asks(1, 2, 0), says[t][1]);
+            due.is("closes " + says[t][0], y.asks(2, 2, 0), says[t][1]);
+            due.is("TAKES of takes " + says[t][0], y.told(2, 3), says[t][1]);
+            y.lay(2, 1, 9);
+            due.is("TAKES of a BEND", y.told(2, 3), says[t][1] + 2);
+            y.lay(2, 4, 9);
+            due.is("TAKES of a RULED", y.told(2, 3), says[t][1] + 12);
+        }
+        // a DOOR with all but it beside, a third of them cut
+        Tape.obey(x, "falls 0;takes 1;closes 1;");
+        long c = 1000000000L;
+        for (int p = 0; p < 16; p++) {
+            x.lay(p, 3, 0);
+            c = c * (100 - p / 3) / 100;
+        }
+        due.is("DOORS, of each how many stand by 3, cut", x.likely(0, 0), c);
     }
 }

@@ -136,6 +136,7 @@ public final class StandsTest {
         x.set(3, 1);
         due.is("over an empty place", x.put(3, seedOf(43)), 4);
         due.is("seed 99999", x.put(9, 99999), lot(99999) < 40 ? 0 : -1);
+        surely();
         due.is("place -1", x.put(-1, 0), -5);
         due.is("place 16 ahead of the seed", x.put(16, -1), -5);
         due.is("seed -1", x.put(0, -1), -7);
@@ -143,6 +144,24 @@ public final class StandsTest {
         x.set(1, 1);
         due.is("the seed ahead of STATE", x.put(0, 100000), -7);
         due.is("STATE", x.put(0, 0), STATE);
+    }
+
+    /** FALLS at its bounds: by 0 none falls, by 99 all but one of a hundred. */
+    private static void surely() {
+        AGapEveryTwenty x = standing(0b0110);
+        Tape.obey(x, "falls 99*(place=3);takes 1;closes 1;");
+        due.is("FALLS 0, the least lot", x.put(0, seedOf(0)), -1);
+        due.is("FALLS 99, the most lot but one", x.put(3, seedOf(98)), 3);
+        due.is("nothing stands", x.count(1), 0);
+        due.is("FALLS 99, the most lot", x.put(3, seedOf(99)), -1);
+        due.is("one stands", x.count(1), 8);
+        AGapEveryTwenty y = standing(0b1111_1111_1111_1110);
+        Tape.obey(y, "falls 10*(beside=15);takes 1;closes 1;");
+        due.is("all others beside, to the right", y.put(0, seedOf(9)), 15);
+        due.is("all are down", y.count(1), 0);
+        y.set(1, 0b0111_1111_1111_1111);
+        due.is("all others beside, to the left", y.put(15, seedOf(10)), -1);
+        due.is("all stand", y.count(1), 65535);
     }
 
     private static void draws() {
@@ -174,6 +193,8 @@ public final class StandsTest {
         due.is("what stands", x.drawn(5, 400, 1), 65535);
         due.is("it fell", x.drawn(5, 400, 2), 0);
         further();
+        gapsAtLast();
+        neverAll();
         due.is("seed 99999", x.drawn(99999, 0, 0), 0);
         due.is("seed -1", x.drawn(-1, 0, 0), BAD);
         due.is("seed 100000", x.drawn(100000, 0, 0), BAD);
@@ -183,14 +204,49 @@ public final class StandsTest {
         due.is("what 3", x.drawn(0, 0, 3), BAD);
     }
 
+    /** Rows by gaps at several places, one row asked behind another. */
+    private static void gapsAtLast() {
+        AGapEveryTwenty x = new AGapEveryTwenty();
+        Tape.obey(x, "falls 0;takes 1;closes 1;");
+        for (int set : new int[] {0, 1, 1 | 1 << 15, 0b0110_0000_0000_0011, 65535, 0b1000_0000_0010_1001}) {
+            x.set(0, set);
+            int stands = 65535 - set;
+            int n = 16 - Integer.bitCount(set);
+            due.is("all but the gaps, by " + set, x.drawn(5, n, 1), stands);
+            for (int p = 0; p < 16; p++) {
+                if ((set >> p & 1) == 1) {
+                    stands |= 1 << p;
+                    n++;
+                    due.is("gaps from the left on, by " + set, x.drawn(5, n, 1), stands);
+                }
+            }
+        }
+    }
+
+    /** 400 lots at most, though all never stand. */
+    private static void neverAll() {
+        AGapEveryTwenty x = new AGapEveryTwenty();
+        Tape.obey(x, "falls 99;takes 1;closes 1;");
+        due.is("all lots are had", x.drawn(3, 400, 0), 400);
+        int fell = 0;
+        long lot = 4;
+        for (int i = 0; i < 400; i++) {
+            lot = lot * 48271 % 2147483647;
+            fell += lot % 100 < 99 ? 1 : 0;
+        }
+        due.is("it fell", x.drawn(3, 400, 2), fell);
+        due.is("odds of none", x.odds(3, 20, 400, 0), 0);
+        due.is("odds of none, below", x.odds(3, 20, 400, 1), 1);
+    }
+
     /** By a law by which all fall alike, but at the first, the lots are counted here. */
     private static void further() {
-        AGapEveryTwenty x = new AGapEveryTwenty();
-        Tape.obey(x, "falls 50;takes 1;closes 1;");
         long lot = 12346;
         int run = 0;
         int fell = 0;
         for (int i = 0; i < 400; i++) {
+            AGapEveryTwenty x = new AGapEveryTwenty();
+            Tape.obey(x, "falls 50;takes 1;closes 1;");
             lot = lot * 48271 % 2147483647;
             if (lot % 100 < 50) {
                 fell++;
@@ -226,6 +282,10 @@ public final class StandsTest {
             }
         }
         due.is("400 lots", x.odds(0, 1, 400, 1), 1);
+        AGapEveryTwenty z = new AGapEveryTwenty();
+        Tape.obey(z, "falls 60*(place=0 and beside=0);takes 1;closes 1;");
+        z.set(2, 1);
+        due.is("odds asked first, from the right", z.odds(500, 20, 16, 0), 1);
         AGapEveryTwenty y = new AGapEveryTwenty();
         Tape.obey(y, "falls 60*(place=0 and beside=0);takes 1;closes 1;");
         y.plan();

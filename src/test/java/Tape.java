@@ -1,11 +1,16 @@
-/** Feeds texts byte by byte, as a host would. */
+/** Feeds texts five bytes at a time, as an object has few calls to spare. */
 final class Tape {
     private Tape() {
     }
 
     static void feed(AGapEveryTwenty x, String text) {
-        for (int i = 0; i < text.length(); i++) {
-            x.feed(1, text.charAt(i), 0, 0, 0, 0);
+        for (int i = 0; i < text.length(); i += 5) {
+            int[] v = new int[5];
+            int n = Math.min(5, text.length() - i);
+            for (int k = 0; k < n; k++) {
+                v[k] = text.charAt(i + k);
+            }
+            x.feed(n, v[0], v[1], v[2], v[3], v[4]);
         }
     }
 

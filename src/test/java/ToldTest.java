@@ -34,8 +34,10 @@ public final class ToldTest {
         due.is("missing, ahead of the place", x.judge(0, 16, 0), -11);
         x.sheet(0, 2, 15);
         due.is("tells 15, ahead of the place", x.judge(0, 16, 0), BAD);
-        x.sheet(0, 2, 17);
-        due.is("tells 17", x.judge(0, 1, 0), BAD);
+        for (int n : new int[] {0, 1, 17, 40}) {
+            x.sheet(0, 2, n);
+            due.is("tells " + n, x.judge(0, 1, 0), BAD);
+        }
         write(x, 0, 0b0111_0000);
         due.is("as by the push", x.judge(0, 5, 0), -1);
         due.is("otherwise to the right", x.judge(0, 5, 1), 4);
@@ -197,6 +199,14 @@ public final class ToldTest {
         due.is("another one", x.laws(0), 0b1000);
         x.cell(0, 0, 77);
         due.is("none", x.laws(0), 0);
+        Tape.read(x, "falls 3;takes 9;closes 9;");
+        Tape.read(x, "falls 7;takes 9;closes 9;");
+        x.force(5);
+        x.film(0, 16, 0);
+        due.is("the last of six", x.laws(0), 0b100000);
+        x.force(4);
+        x.film(0, 16, 0);
+        due.is("two of six", x.laws(0), 0b010010);
         due.is("sheet -1", x.laws(-1), BAD);
         due.is("sheet 4", x.laws(4), BAD);
         due.is("missing", x.laws(1), -11);
