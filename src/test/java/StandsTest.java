@@ -194,6 +194,7 @@ public final class StandsTest {
         due.is("it fell", x.drawn(5, 400, 2), 0);
         further();
         gapsAtLast();
+        fromTheMiddle();
         neverAll();
         due.is("seed 99999", x.drawn(99999, 0, 0), 0);
         due.is("seed -1", x.drawn(-1, 0, 0), BAD);
@@ -219,6 +220,22 @@ public final class StandsTest {
                     n++;
                     due.is("gaps from the left on, by " + set, x.drawn(5, n, 1), stands);
                 }
+            }
+        }
+    }
+
+    /** From the middle (of two the left one) by turns to the right and to the left, of stretches of each size. */
+    private static void fromTheMiddle() {
+        String[] orders = {"0", "01", "120", "1203", "23140", "231405", "3425160", "34251607", "453627180", "4536271809"};
+        for (String order : orders) {
+            AGapEveryTwenty x = new AGapEveryTwenty();
+            Tape.obey(x, "falls 0;takes 1;closes 1;");
+            x.set(0, 1 << order.length());
+            x.set(2, 2);
+            int stands = 0;
+            for (int i = 0; i < order.length(); i++) {
+                stands |= 1 << order.charAt(i) - '0';
+                due.is("from the middle of " + order.length() + ", lot " + i, x.drawn(8, i + 1, 1), stands);
             }
         }
     }
