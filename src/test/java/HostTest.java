@@ -131,6 +131,17 @@ public final class HostTest {
         due.is("none of them", x.layBy(0, 1, 0, 0), 0);
         x.sheet(1, 0, 39);
         due.is("thirteen", x.layBy(1, 0, 0, 13), 13);
+        for (int sort = 0; sort < 3; sort++) {
+            x.sheet(1, sort, 40);
+            x.cell(1, 37, 15);
+            x.cell(1, 38, 5);
+            x.cell(1, 39, 9);
+            due.is("thirteen up to the last number", x.layBy(1, sort, 1, 13), 13);
+            due.is("the thirteenth is so", x.lay(15, 0, 0), 59);
+            due.is("one number too few", x.layBy(1, sort, 2, 13), -12);
+            due.is("all others are left out", x.layBy(1, sort, 37, 1), 1);
+            due.is("nothing from the end on", x.layBy(1, sort, 40, 0), 0);
+        }
         due.is("a bad KIND is left out", layOne(3, 6, 0), 0);
         due.is("a bad MORE is left out", layOne(3, 5, 10), 0);
         due.is("a place below 0 is left out", layOne(-1, 0, 0), 0);
