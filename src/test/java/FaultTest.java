@@ -141,9 +141,23 @@ public final class FaultTest {
         due.is("as many signs as there is room for", x.text(), 2);
         x.force(2);
         due.is("what they say", x.told(0, 2), 68);
+        shorterBehindLonger();
         due.is("too short behind a longer one", Tape.read(x, "falls 1;takes 1;closes 1"), -124);
         due.is("a word behind a longer one", Tape.read(x, "fall"), -100);
         due.is("a number behind a longer one", Tape.read(x, "falls 1"), -107);
+    }
+
+    /** Nothing of a longer text, or of a faulty one, is left in a shorter one. */
+    private static void shorterBehindLonger() {
+        for (String longer : new String[] {"falls 1+1*1;takes 1;closes 1;", "falls 1*1+1*1;takes 1;closes 1",
+            "falls not 1;takes - 1;closes - - 1;", "falls 1;takes 1;closes 1 < 1 or"}) {
+            AGapEveryTwenty x = new AGapEveryTwenty();
+            Tape.read(x, longer);
+            due.is("reads behind " + longer, Tape.obey(x, "falls 5;takes 6;closes 7;") > 0 ? 1 : 0, 1);
+            for (int part = 0; part < 3; part++) {
+                due.is("says behind " + longer, x.asks(part, 0, 0), 5 + part);
+            }
+        }
     }
 
     private static void says(String e, int want) {
