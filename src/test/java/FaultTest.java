@@ -4,6 +4,7 @@ public final class FaultTest {
 
     public static void main(String[] args) {
         faults();
+        eachToken();
         opens();
         wholeTapes();
         sayings();
@@ -48,6 +49,12 @@ public final class FaultTest {
         fault("falls 2 x", 8);
         fault("falls 2 @", 8);
         fault("Falls 2;", 0);
+        fault("fallsA 2;", 5);
+        fault("falls placeZ;", 11);
+        fault("falls 1 orE 2;", 10);
+        fault("falls 12a;", 8);
+        fault("falls 1;takes 1;closes 1;Z", 25);
+        fault("falls 99999999999999999999;", 6);
         fault("falls 2\t;", 7);
         fault("falls 2\r;", 7);
         fault("falls 2;takes 3;closes 4;\u0000", 25);
@@ -85,6 +92,67 @@ public final class FaultTest {
         fault("falls 1;takes 1 @ x", 16);
         good("falls 1 - -1;takes not not 1;closes (not 1 < 2) + 1;");
         good("falls 1 < 2 and 2 < 3 or not 1 = 2;takes 1;closes 1;");
+    }
+
+    private static final String ONES = "place more beside gaps end reach 7 0000";
+    private static final String AHEAD = " - (";
+    private static final String BEHIND_ONE = "+ - *";
+
+    /** Each token behind each beginning: where it can't stand, its place is the FAULT; where it can, the end is. */
+    private static void eachToken() {
+        String sums = "or and " + BEHIND_ONE;
+        String compared = sums + " < =";
+        behind("", "falls");
+        behind(" \n", "falls");
+        for (String begun : new String[] {"falls ", "falls 1 or ", "falls 1 and ", "falls not ", "falls ("}) {
+            behind(begun, ONES + AHEAD + " not");
+        }
+        for (String begun : new String[] {"falls 1 + ", "falls 1 - ", "falls 1 * ", "falls 1 < ", "falls 1 = ",
+            "falls - ", "falls not - ", "falls - - "}) {
+            behind(begun, ONES + AHEAD);
+        }
+        for (String begun : new String[] {"falls 1 ", "falls more ", "falls - 1 ", "falls not 1 ", "falls 1 + 2 ",
+            "falls 1 * 2 ", "falls 1 and 2 ", "falls 1 < 2 or 3 ", "falls 1 < 2 and 3 ", "falls (1 < 2) ",
+            "falls not (1 < 2) ", "falls 1 < 2 and not 3 "}) {
+            behind(begun, compared + " ;");
+        }
+        for (String begun : new String[] {"falls 1 < 2 ", "falls 1 = 2 ", "falls not 1 < 2 ", "falls 1 < 2 + 3 ",
+            "falls 1 or 2 = 3 * 4 ", "falls 1 = - 2 "}) {
+            behind(begun, sums + " ;");
+        }
+        behind("falls (1 ", compared + " )");
+        behind("falls (1 < 2 ", sums + " )");
+        behind("falls ((1) ", compared + " )");
+        behind("falls 1;", "takes");
+        behind("falls 1 ; takes (2) ; ", "closes");
+        behind("falls 1;takes 1;", "closes");
+        behind("falls 1;takes ", ONES + AHEAD + " not");
+        behind("falls 1;takes 1;closes 1 ", compared + " ;");
+        behind("falls 1;takes 1;closes 1;", "");
+        behind("falls 1;takes 1;closes 1; ", "");
+        // while five are open
+        behind("falls ((((( ", ONES);
+        behind("falls - - - - - ", ONES);
+        behind("falls not not not not not ", ONES);
+        behind("falls ( - ( not ( 1 + ", ONES);
+        behind("falls (((( ", ONES + AHEAD + " not");
+        behind("falls (((((1 ", compared + " )");
+        behind("falls (((((1) ", compared + " )");
+    }
+
+    private static void behind(String begun, String allowed) {
+        String all = "falls takes closes or and not place more beside gaps end reach 7 0000 ( ) ; + - * < ="
+                + " x fall fallss ors nota 12345 00000 @ A { ` / : ! > [ ' , . \t \r \u0000 \u0080 \u00ff";
+        for (String token : all.split(" ")) {
+            boolean can = (" " + allowed + " ").contains(" " + token + " ");
+            boolean ends = token.equals(";") && begun.startsWith("falls 1;takes 1;closes 1 ");
+            if (ends) {
+                good(begun + token);
+            } else {
+                fault(begun + token, begun.length() + (can ? token.length() : 0));
+                fault(begun + token + " ", begun.length() + (can ? token.length() + 1 : 0));
+            }
+        }
     }
 
     private static void opens() {
@@ -221,6 +289,43 @@ public final class FaultTest {
         says("1024*1024*1024*4", 0);
         says("(" + most + ")*2", -2);
         says("(" + most + ")*(" + most + ")", 1);
+        // compared as they are, though their difference wraps
+        says(most + " < -1", 0);
+        says("-1 < " + most, 1);
+        says("-(" + most + ") < " + most, 1);
+        says(most + " < -(" + most + ")", 0);
+        says("-(" + most + ")-1 < 1", 1);
+        says("1 < -(" + most + ")-1", 0);
+        says(most + " = -1-" + most, 0);
+        chains();
         says("9000 * 9000 * 53 < 0", 9000 * 9000 * 53 < 0 ? 1 : 0);
+    }
+
+    /** Several alike, one behind another. */
+    private static void chains() {
+        says("1 and 2 and 3", 1);
+        says("1 and 2 and 0", 0);
+        says("0 and 2 and 3", 0);
+        says("1 and 0 and 3 and 4", 0);
+        says("0 or 0 or 0 or 4", 1);
+        says("0 or 0 or 0 or 0", 0);
+        says("1 and 0 or 1 and 0 or 2 and 3", 1);
+        says("1 and (0 or 0 or 1) and 4", 1);
+        says("2 * 3 * 4", 24);
+        says("2 * 3 * 4 - 5 * 2 * 2 + 1", 5);
+        says("1 - 2 + 3 - 4 + 5", 3);
+        says("1 + 2 + 3 + 4 + 5", 15);
+        says("20 - 1 - 2 - 3 - 4", 10);
+        says("- 2 * 3", -6);
+        says("2 * - 3 + 10", 4);
+        says("not not not 4", 0);
+        says("- - - 4", -4);
+        says("not 1 = 2 and not 2 = 2", 0);
+        says("not 1 = 2 or not 2 = 2", 1);
+        says("4 and 8", 1);
+        says("4 or 8", 1);
+        says("(1 < 2) < 2", 1);
+        says("(3 = 3) = 3", 0);
+        says("(2 and 3) + (2 or 3) + (not 0)", 3);
     }
 }

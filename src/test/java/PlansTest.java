@@ -14,8 +14,10 @@ public final class PlansTest {
         plans();
         bests();
         everies();
+        fromEachEnd();
         whiches();
         stops();
+        stopsByGaps();
         dears();
         oneByOne();
         atOnce();
@@ -404,6 +406,56 @@ public final class PlansTest {
         due.is("what 2", x.every(2), NO);
     }
 
+    /** Laws by which it matters much from which END, and where: each call that tries is compared with mean(). */
+    private static void fromEachEnd() {
+        String[] laws = {"falls 3*place;takes 1;closes 1;", "falls 45-3*place;takes 1+place;closes 1;",
+            "falls beside*(place<6)*4;takes 2;closes 16-place;", "falls (7-place)*(place-7)+60;takes 1;closes place;"};
+        for (String law : laws) {
+            long[] every = new long[3];
+            for (int way = 0; way < 3; way++) {
+                AGapEveryTwenty x = by(law);
+                x.set(0, 1 << 2 | 1 << 7 | 1 << 11);
+                x.set(2, way);
+                String at = " from " + way + " by " + law;
+                int k = 0;
+                for (int i = 16; i >= 2; i--) {
+                    k = k == 0 || x.mean(gapsEvery(i), way) <= x.mean(gapsEvery(k), way) ? i : k;
+                }
+                due.is("every(0)" + at, x.every(0), k);
+                due.is("every(1)" + at, x.every(1), x.mean(gapsEvery(k), way));
+                every[way] = x.every(1);
+                int gap = 0;
+                for (int p : new int[] {11, 7, 2}) {
+                    gap = gap == 0 || without(x, p, way) <= without(x, gap, way) ? p : gap;
+                }
+                due.is("dear(0)" + at, x.dear(0), gap);
+                due.is("dear(1)" + at, x.dear(1), without(x, gap, way));
+                long least = x.mean(0, way);
+                int set = 0;
+                for (int p = 0; p < 16; p++) {
+                    if (x.mean(1 << p, way) < least) {
+                        set = 1 << p;
+                        least = x.mean(set, way);
+                    }
+                }
+                due.is("best(1, 0)" + at, x.best(1, 0), set);
+                due.is("best(1, 1)" + at, x.best(1, 1), least);
+                due.is("plan()" + at, x.plan(), x.mean(x.count(0), way));
+                int end = 0;
+                for (int i = 1; i < 3; i++) {
+                    end = x.mean(x.count(0), i) < x.mean(x.count(0), end) ? i : end;
+                }
+                due.is("which(0)" + at, x.which(0), end);
+                due.is("which(1)" + at, x.which(1), x.mean(x.count(0), end));
+            }
+            due.is("the END matters by " + law, every[0] == every[1] && every[1] == every[2] ? 1 : 0, 0);
+        }
+    }
+
+    private static long without(AGapEveryTwenty x, int gap, int way) {
+        return x.mean(x.count(0) & ~(1 << gap), way);
+    }
+
     private static void whiches() {
         AGapEveryTwenty x = by("falls place;takes 1;closes 1;");
         x.set(2, 1);
@@ -459,6 +511,52 @@ public final class PlansTest {
         due.is("by nothing", z.stop(1), 0);
         due.is("what -1", x.stop(-1), NO);
         due.is("what 2", x.stop(2), NO);
+    }
+
+    /** stop() is compared with plans of rows that are ruled, truly, at each place, a gap or not. */
+    private static void stopsByGaps() {
+        AGapEveryTwenty x = by("falls 90*(place=5 and not beside=0);takes 1;closes 1;");
+        x.set(0, 1 << 5);
+        due.is("a gap is ruled", x.stop(0), 5);
+        due.is("a gap is ruled: by how much", x.stop(1), 15000 + 155000 - (15000 + 5000));
+        AGapEveryTwenty y = by("falls 99*(place=1 and beside=1);takes 1;closes 1;");
+        y.set(0, 1 << 5);
+        due.is("no gap is ruled", y.stop(0), 0);
+        String[] laws = {"falls beside*2;takes 1;closes 3;", "falls place*3;takes 1+more;closes 1;",
+            "falls 9+more*gaps;takes 1+end;closes beside;"};
+        for (String law : laws) {
+            for (int set : new int[] {0, 1, 1 << 15, 544, 0b0011_0000_0110_0010}) {
+                for (int way = 0; way < 3; way++) {
+                    int place = -1;
+                    long most = 0;
+                    long before = mixed(law, set, way).plan();
+                    for (int p = 0; p < 16; p++) {
+                        AGapEveryTwenty z = mixed(law, set, way);
+                        z.lay(p, 4, z.told(p, 1));
+                        if (before - z.plan() > most) {
+                            most = before - z.plan();
+                            place = p;
+                        }
+                    }
+                    AGapEveryTwenty z = mixed(law, set, way);
+                    due.is("stop(0) by " + set + " from " + way + ", " + law, z.stop(0), place);
+                    due.is("stop(1) by " + set + " from " + way + ", " + law, z.stop(1), most);
+                    due.is("the plan is as before", z.plan(), before);
+                }
+            }
+        }
+    }
+
+    private static AGapEveryTwenty mixed(String law, int set, int way) {
+        AGapEveryTwenty x = new AGapEveryTwenty();
+        Tape.obey(x, law);
+        int[] kinds = {0, 1, 0, 2, 5, 3, 0, 4, 1, 0, 0, 3, 2, 0, 5, 1};
+        for (int p = 0; p < 16; p++) {
+            x.lay(p, kinds[p], p * 7 % 10);
+        }
+        x.set(0, set);
+        x.set(2, way);
+        return x;
     }
 
     private static void dears() {

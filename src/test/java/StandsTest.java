@@ -12,6 +12,8 @@ public final class StandsTest {
         tips();
         puts();
         draws();
+        byReach();
+        byGaps();
         odds();
         due.end();
     }
@@ -95,6 +97,19 @@ public final class StandsTest {
         due.is("none there", x.tip(5, 1), 0);
         due.is("both sides", x.tip(10, 0), 4);
         due.is("what stands", x.count(1), 0b0001_0010);
+        AGapEveryTwenty all = standing(65535);
+        due.is("the last alone", all.tip(15, 1), 1);
+        due.is("all but the last", all.count(1), 32767);
+        due.is("all that stand yet", all.tip(0, 1), 15);
+        due.is("none", all.count(1), 0);
+        due.is("all sixteen", standing(65535).tip(7, 0), 16);
+        AGapEveryTwenty over = standing(0b1001_0000_0101_0001);
+        over.set(3, 1);
+        due.is("by the reach", over.tip(4, 0), 2);
+        due.is("by the reach: what stands", over.count(1), 0b1001_0000_0000_0001);
+        over.set(3, 2);
+        due.is("by a reach of 2", over.tip(15, 0), 2);
+        due.is("by a reach of 2: what stands", over.count(1), 1);
         due.is("place -1", x.tip(-1, 0), -5);
         due.is("place 16 ahead of the side", x.tip(16, 5), -5);
         due.is("side -1", x.tip(1, -1), -7);
@@ -277,6 +292,67 @@ public final class StandsTest {
                 break;
             }
         }
+    }
+
+    /** BESIDE in rows by lots is by the reach. Seed 1: its first lots, modulo 100, are below 99. */
+    private static void byReach() {
+        int twoEmpty = 65535 - (1 << 3) - (1 << 5);
+        int[] beside = {4, 14, 14};
+        for (int reach = 0; reach < 3; reach++) {
+            for (int many = 0; many <= 16; many++) {
+                AGapEveryTwenty x = standing(twoEmpty);
+                Tape.obey(x, "falls 99*(beside=" + many + ");takes 1;closes 1;");
+                x.set(3, reach);
+                due.is("one lot by reach " + reach + ", beside " + many, x.drawn(1, 1, 1),
+                        many != beside[reach] ? twoEmpty | 1 << 3 : reach == 0 ? twoEmpty & ~31 : 0);
+                due.is("it fell", x.drawn(1, 1, 2), many == beside[reach] ? 1 : 0);
+                due.is("all by two lots", x.odds(1, 1, 2, 0), many == beside[reach] || many == 15 ? 0 : 1);
+            }
+        }
+        due.is("the first lot", lot(1) < 99 ? 1 : 0, 1);
+        due.is("the second lot", 2L * 48271 % 2147483647 * 48271 % 2147483647 % 100 < 99 ? 1 : 0, 1);
+        // a stop is beside none, and none is beside it
+        AGapEveryTwenty y = standing(twoEmpty);
+        y.lay(3, 4, 0);
+        Tape.obey(y, "falls 99*(beside=0);takes 1;closes 1;");
+        due.is("a stop falls alone", y.drawn(1, 1, 1), twoEmpty);
+        due.is("once", y.drawn(1, 1, 2), 1);
+        y.lay(3, 0, 0);
+        y.lay(4, 4, 0);
+        Tape.obey(y, "falls 99*(beside=3);takes 1;closes 1;");
+        due.is("as far as a stop", y.drawn(1, 1, 1), twoEmpty & ~7);
+    }
+
+    /** Place 5 falls, if it is put up ahead of place 6; as a gap it is put up behind it. */
+    private static void byGaps() {
+        AGapEveryTwenty x = standing(65535 - (3 << 5));
+        Tape.obey(x, "falls 99*(place=5 and beside=5);takes 1;closes 1;");
+        due.is("no gap", x.drawn(1, 1, 1), 65535 & ~127);
+        due.is("no gap: odds", x.odds(1, 1, 2, 0), 0);
+        x.set(0, 1 << 5);
+        due.is("a gap", x.drawn(1, 2, 1), 65535);
+        due.is("a gap: odds", x.odds(1, 1, 2, 0), 1);
+        x.set(0, 0);
+        due.is("no gap again: odds", x.odds(1, 1, 2, 0), 0);
+        x.set(2, 1);
+        due.is("from the right: odds", x.odds(1, 1, 2, 0), 1);
+        x.set(2, 2);
+        x.set(0, 1 << 12);
+        due.is("from the middle, 5: odds", x.odds(1, 1, 2, 0), 0);
+        x.set(0, 1 << 15);
+        due.is("from the middle, 7: odds", x.odds(1, 1, 2, 0), 1);
+        x.lay(6, 4, 0);
+        x.set(0, 0);
+        due.is("a stop behind it: odds", x.odds(1, 1, 2, 0), 0);
+        // what stands truly counts for the odds
+        AGapEveryTwenty y = standing(65534);
+        Tape.obey(y, "falls 0;takes 1;closes 1;");
+        due.is("one lot is enough", y.odds(1, 20, 1, 0), 1);
+        due.is("no lot is not", y.odds(1, 20, 0, 0), 0);
+        y.set(1, 65532);
+        due.is("one is too few", y.odds(1, 20, 1, 0), 0);
+        y.set(1, 65535);
+        due.is("all stand: no lot is needed", y.odds(1, 20, 0, 0), 1);
     }
 
     private static void odds() {

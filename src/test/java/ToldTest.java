@@ -7,6 +7,7 @@ public final class ToldTest {
     public static void main(String[] args) {
         judges();
         origins();
+        byReach();
         hows();
         checks();
         kinds();
@@ -81,6 +82,39 @@ public final class ToldTest {
         write(x, 0, 0b1110);
         due.is("otherwise at place 0", x.origin(0, 1), 0b0010);
         due.is("otherwise at place 0, to the left", x.origin(0, 2), 0);
+    }
+
+    /** Two by two stand, with one place and with two between. */
+    private static void byReach() {
+        int stands = 0b1100_1101_1000_0110;
+        int[][] falls = {{0b0110, 0b0110, 0b0110}, {0b0001_1000_0000, 0b1101_1000_0000, 0b1100_1101_1000_0000}};
+        int[] from = {1, 7};
+        for (int reach = 0; reach < 3; reach++) {
+            for (int k = 0; k < 2; k++) {
+                AGapEveryTwenty x = new AGapEveryTwenty();
+                x.set(1, stands);
+                x.set(3, reach);
+                write(x, 0, falls[k][reach]);
+                due.is("judge by reach " + reach, x.judge(0, from[k], 1), -1);
+                due.is("origin by reach " + reach, x.origin(0, 1), 1 << from[k]);
+                due.is("film by reach " + reach, x.film(1, from[k], 1), 16);
+                for (int other = 0; other < 3; other++) {
+                    x.set(3, other);
+                    int unlike = falls[k][reach] ^ falls[k][other];
+                    int first = unlike == 0 ? -1 : Integer.numberOfTrailingZeros(unlike);
+                    due.is("judge by reach " + other + " for " + reach, x.judge(0, from[k], 1), first);
+                    due.is("judge of the film by reach " + other + " for " + reach, x.judge(1, from[k], 1), first);
+                    due.is("origin by reach " + other + " for " + reach, x.origin(0, 1), unlike == 0 ? 1 << from[k] : 0);
+                    int sides = Integer.bitCount(falls[k][reach]) > 1 && unlike == 0 ? 0b011 : 0;
+                    due.is("sides by reach " + other + " for " + reach, x.how(0, from[k], 0), sides);
+                    int reaches = 0;
+                    for (int i = 0; i < 3; i++) {
+                        reaches |= falls[k][i] == falls[k][reach] ? 1 << i : 0;
+                    }
+                    due.is("reaches, whatever the reach is", x.how(0, from[k], 11), reaches);
+                }
+            }
+        }
     }
 
     private static void hows() {
@@ -277,6 +311,13 @@ public final class ToldTest {
         x.set(3, 2);
         x.force(1);
         due.is("image()", x.image(), 3);
+        x.set(1, 65535);
+        due.is("image() of all", x.image(), 16);
+        x.set(1, 1 << 15);
+        due.is("image() of the last", x.image(), 1);
+        due.is("back() to the last", x.back(), 1);
+        x.set(1, 7);
+        due.is("image() again", x.image(), 3);
         x.lay(3, 1, 1);
         x.lay(0, 2, 2);
         x.set(0, 0);
