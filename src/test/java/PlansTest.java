@@ -146,6 +146,7 @@ public final class PlansTest {
         first = closed(3, 10, 2, same(3));
         again = same(3) + first + same(11);
         due.is("two gaps side by side", x.mean(3 << 3, 0), same(3) + same(11) + first + closed(3, 10, 2, again));
+        manyGaps();
         // beside is how many places it joins, the closed ones, too
         AGapEveryTwenty y = by("falls 0;takes 1;closes beside+1;");
         due.is("beside of gaps", y.mean(1 << 3 | 1 << 8, 0), 14000 + (1 + 8) * 1000 + (1 + 16) * 1000);
@@ -180,6 +181,44 @@ public final class PlansTest {
             many = up(many, 1, i);
         }
         due.is("falls by beside of a gap", z.mean(1 << 4, 0), twice + many + closed(1, 1, 15, twice + many));
+    }
+
+    /** Each gap joins all that has been joined to its left, with its mean as told at last. */
+    private static void manyGaps() {
+        int[][] sets = {{2, 6, 11}, {1, 10, 13}, {3, 4, 5, 12, 14}, {0, 5, 6, 13, 15}, {9, 10, 11, 12}};
+        for (int[] gaps : sets) {
+            AGapEveryTwenty x = by("falls 7+beside*2;takes 1+place;closes 1+beside;");
+            int set = 0;
+            for (int g : gaps) {
+                set |= 1 << g;
+            }
+            long total = 0;
+            long joined = 0;
+            int from = 0;
+            for (int i = 0; i <= gaps.length; i++) {
+                int to = i < gaps.length ? gaps[i] : 16;
+                long mean = stretchUp(from, to);
+                total += mean;
+                if (i > 0) {
+                    int gap = gaps[i - 1];
+                    long all = closed(1 + gap, 1 + to - 1, 7 + 2 * (to - 1), joined + mean);
+                    total += all;
+                    joined += mean + all;
+                } else {
+                    joined = mean;
+                }
+                from = to + 1;
+            }
+            due.is("gaps, the first at " + gaps[0] + ", " + gaps.length, x.mean(set, 0), total);
+        }
+    }
+
+    private static long stretchUp(int from, int to) {
+        long t = 0;
+        for (int p = from; p < to; p++) {
+            t = up(t, 1 + p, 7 + 2 * (p - from));
+        }
+        return t;
     }
 
     /** AGAIN is 0 where there is nothing to join: with FALLS 99 a thousandth more would be seen. */

@@ -85,7 +85,8 @@ public final class RandomRunsTest {
     }
 
     private void step(String at) {
-        switch (random.nextInt(13)) {
+        switch (random.nextInt(14)) {
+            case 13: stepHeap(at); break;
             case 0: case 1: case 2: stepRow(at); break;
             case 3: stepText(at); break;
             case 4: case 5: stepPlans(at); break;
@@ -161,7 +162,7 @@ public final class RandomRunsTest {
     }
 
     private void and(StringBuilder b, int deep, int bound) {
-        for (int i = random.nextInt(8) == 0 ? 2 : 1; i > 0; i--) {
+        for (int i = random.nextInt(8) == 0 ? 2 + random.nextInt(2) : 1; i > 0; i--) {
             if (random.nextInt(6) == 0) {
                 b.append(" not ");
             }
@@ -195,6 +196,7 @@ public final class RandomRunsTest {
             b.append(" ").append(NAMES[random.nextInt(6)]).append(" ");
         } else {
             b.append(random.nextInt(5) == 0 ? random.nextInt(10000) : random.nextInt(30));
+            b.append(random.nextInt(40) == 0 ? "*9999*9999" : "");
         }
     }
 
@@ -261,6 +263,23 @@ public final class RandomRunsTest {
             case 11: due.is(at + "image()", x.image(), y.image()); break;
             default: due.is(at + "back()", x.back(), y.back()); break;
         }
+    }
+
+    /** A heap that is told truly, and then asked about by another reach, from elsewhere, to another side. */
+    private void stepHeap(String at) {
+        int s = random.nextInt(4);
+        int p = random.nextInt(16);
+        int w = random.nextInt(3);
+        due.is(at + "film(" + s + ", " + p + ", " + w + ")", x.film(s, p, w), y.film(s, p, w));
+        if (random.nextBoolean()) {
+            int reach = random.nextInt(3);
+            due.is(at + "set(3, " + reach + ")", x.set(3, reach), y.set(3, reach));
+        }
+        due.is(at + "judge(" + s + ", " + p + ", " + w + ")", x.judge(s, p, w), y.judge(s, p, w));
+        int side = random.nextInt(3);
+        due.is(at + "origin(" + s + ", " + side + ")", x.origin(s, side), y.origin(s, side));
+        due.is(at + "how(" + s + ", " + p + ", " + side + ")", x.how(s, p, side), y.how(s, p, side));
+        due.is(at + "how(" + s + ", " + p + ", " + (10 + side) + ")", x.how(s, p, 10 + side), y.how(s, p, 10 + side));
     }
 
     private void stepHost(String at) {
